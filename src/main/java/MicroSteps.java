@@ -235,9 +235,11 @@ public final class MicroSteps {
         if (!isAxis(axis) || !isWithin(way, 1, FARTHEST) || !isWithin(ticks, 1, 60000)) {
             return NONE;
         }
+        int taken = asked.startAlone(bench, axis, way);
         for (int speed = 1; speed <= TOP_SPEED; speed++) {
-            asked.planAlone(bench, axis, way, speed);
-            if (asked.ticks() <= ticks) {
+            // A speed that can't be TOP leaves the TOP of the speed ahead of it.
+            taken = asked.takeTop(bench, speed) ? asked.ticks() : taken;
+            if (taken <= ticks) {
                 return speed;
             }
         }
@@ -287,10 +289,11 @@ public final class MicroSteps {
         }
         int best = NONE;
         int fewest = Integer.MAX_VALUE;
+        int taken = asked.startAlone(bench, axis, way);
         for (int speed = 1; speed <= TOP_SPEED; speed++) {
-            asked.planAlone(bench, axis, way, speed);
-            if (asked.ticks() < fewest) {
-                fewest = asked.ticks();
+            taken = asked.takeTop(bench, speed) ? asked.ticks() : taken;
+            if (taken < fewest) {
+                fewest = taken;
                 best = speed;
             }
         }
@@ -1323,17 +1326,23 @@ public final class MicroSteps {
                 return false;
             }
             findLimits(bench);
-            shape(bench);
-            return true;
+            // The RAMP to 0 can always be, so the search ends there at the latest.
+            for (int top = speed; top >= 0; top--) {
+                if (takeTop(bench, top)) {
+                    return true;
+                }
+            }
+            return false;
         }
 
-        void planAlone(Bench bench, int axis, int length, int most) {
+        /** A MOVE of one axis alone by no RAMP yet: how many TICKS it takes so. */
+        int startAlone(Bench bench, int axis, int length) {
             lead = axis;
             way = length;
-            speed = most;
             gain = bench.axes[axis].gain;
             jerk = bench.axes[axis].jerk;
-            shape(bench);
+            takeTop(bench, 0);
+            return ticks();
         }
 
         void findLimits(Bench bench) {
@@ -1350,17 +1359,17 @@ public final class MicroSteps {
             }
         }
 
-        /** The RAMP to 0 has no TICKS, so the search for TOP ends there at the latest. */
-        void shape(Bench bench) {
-            for (int top = speed; top >= 0; top--) {
-                ramp.build(top, gain, jerk);
-                if (2 * ramp.micros() <= way && bench.bandsOver(lead, ramp.reached()) == 0) {
-                    break;
-                }
+        /** False if the RAMP to that speed can't be the MOVE's; what is told of the MOVE is void then. */
+        boolean takeTop(Bench bench, int top) {
+            ramp.build(top, gain, jerk);
+            int reached = ramp.reached();
+            if (2 * ramp.micros() > way || bench.bandsOver(lead, reached) > 0) {
+                return false;
             }
-            int pace = Math.max(1, ramp.reached());
+            int pace = Math.max(1, reached);
             rest = way - 2 * ramp.micros();
             restTicks = (rest + pace - 1) / pace;
+            return true;
         }
 
         int wayOf(int axis) {
