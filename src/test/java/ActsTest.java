@@ -20,6 +20,8 @@ public final class ActsTest {
         trueUpCant();
         undo();
         undoIsAll();
+        undoAheadOfHalt();
+        slipEdges();
         axisAndNow();
         bands();
         Check.finish();
@@ -244,6 +246,14 @@ public final class ActsTest {
         Check.same("left out", x.about(10), 0);
         Check.same("place", x.now(0, 0), 5);
         Check.same("off", x.about(6), 0);
+        x.go(6, 0, 0);
+        for (int i = 0; i < 8; i++) {
+            x.queue(6, 0, 0);
+        }
+        x.run(1);
+        Check.same("eight wait", x.about(10), 8);
+        x.run(1);
+        Check.same("eight are left out in one tick", x.about(10), 0);
     }
 
     private static void watch() {
@@ -426,6 +436,60 @@ public final class ActsTest {
         Check.same("the move", x.undo(), 0);
         Check.same("off", x.about(6), 0);
         Check.same("no more", x.undo(), Check.NONE);
+    }
+
+    /** What a halt looks at is taken back too. */
+    private static void undoAheadOfHalt() {
+        MicroSteps x = Check.on("axis x speed 60 gain 20 jerk 10;axis y speed 60 gain 5 jerk 2;");
+        x.go(100, 33, 0);
+        x.queue(0, 33, 0);
+        x.run(2);
+        x.run(20);
+        x.undo();
+        // 18 was the speed: 6, 12, 18 by GAIN 15 and JERK 6; 24 are gone
+        Check.same("halt", x.halt(), 3);
+        Check.same("left", x.run(1), 18);
+        Check.same("lead", x.now(0, 0), 42);
+        Check.same("other", x.now(1, 0), 14);
+        MicroSteps gains = Check.on("axis x speed 60 gain 30 jerk 1;axis y speed 60 gain 1 jerk 10;");
+        gains.go(1000, 500, 0);
+        gains.queue(0, 500, 0);
+        gains.run(10);
+        gains.run(100);
+        gains.undo();
+        Check.same("by its own gain", gains.halt(), gains.ramp(19, 2, 1, 0));
+        Check.holds("not by another", gains.ramp(19, 2, 1, 0) != gains.ramp(19, 30, 1, 0));
+    }
+
+    private static void slipEdges() {
+        MicroSteps x = Check.on(WEAK);
+        x.go(128, 0, 0);
+        x.run(100);
+        Check.same("angle", x.now(0, 3), 2048);
+        Check.same("slipped at 2,048", x.now(0, 5), 1);
+        MicroSteps light = Check.on(Check.ONE_AXIS + "motor x hold 1 mass 1 damp 0;");
+        light.load(0, -2000);
+        light.run(1);
+        light.load(0, 1952);
+        light.run(1);
+        Check.same("angle", light.now(0, 3), -2048);
+        Check.same("not slipped at -2,048", light.now(0, 5), 0);
+        light.load(0, 47);
+        light.run(1);
+        Check.same("angle", light.now(0, 3), -2049);
+        Check.same("slipped at -2,049", light.now(0, 5), -1);
+        light.load(0, -1999);
+        light.run(1);
+        Check.same("angle", light.now(0, 3), -4049);
+        light.load(0, 2000);
+        light.run(1);
+        light.load(0, -2000);
+        light.run(1);
+        Check.same("angle", light.now(0, 3), -6049);
+        light.load(0, 1904);
+        light.run(1);
+        Check.same("angle", light.now(0, 3), -6145);
+        Check.same("slipped two at -6,145", light.now(0, 5), -2);
     }
 
     private static void axisAndNow() {

@@ -30,12 +30,17 @@ public final class AheadTest {
         Check.same("is", x.stallIn(0), 0);
         Check.same("no axis", x.stallIn(1), Check.NONE);
         Check.same("no axis", x.stallIn(-1), Check.NONE);
+        MicroSteps first = Check.on(LIGHT);
+        first.load(0, 1024);
+        Check.same("in the first tick of all", first.stallIn(0), 1);
+        first.run(1);
+        Check.same("it was", first.stallIn(0), 0);
         MicroSteps waits = Check.on(WEAK);
         waits.go(40, 0, 0);
         waits.queue(100, 0, 0);
-        int first = waits.path(40, 0, 0, 0);
+        int ticks = waits.path(40, 0, 0, 0);
         // 40 and 25 more: behind 5 TICKS of the second
-        Check.same("in one that waits", waits.stallIn(0), first + 5);
+        Check.same("in one that waits", waits.stallIn(0), ticks + 5);
         waits.watch(0, 500);
         Check.same("tripped ahead of it", waits.stallIn(0), Check.NONE);
         MicroSteps edge = Check.on(WEAK);

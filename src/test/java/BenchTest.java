@@ -7,6 +7,7 @@ public final class BenchTest {
         feedAndEnd();
         benchIsAllNew();
         faultKeepsAll();
+        oneBenchBehindAnother();
         lines();
         noToken();
         cantStand();
@@ -97,6 +98,27 @@ public final class BenchTest {
         Check.same("fault of another what", x.fault(-1), Check.NONE);
         Check.bench(x, AXIS);
         fault(x, 0, -1);
+    }
+
+    /** Nothing of a bench is left in the ones behind it, with a FAULT or without. */
+    private static void oneBenchBehindAnother() {
+        MicroSteps x = new MicroSteps();
+        String full = AXIS + "band x 3 4;motor x hold 7 mass 7 damp 7;fix 0 9;fix 64 -9;coil supply 7 loss 7;";
+        for (int i = 0; i < 4; i++) {
+            Check.same("full", Check.bench(x, full), 1);
+            Check.same("bands", x.about(1), 1);
+            Check.same("corrections", x.about(2), 2);
+            Check.same("full, and a fault", Check.bench(x, full + "?"), Check.NONE);
+            Check.same("bands stay", x.about(1), 1);
+            Check.same("bare", Check.bench(x, AXIS), 1);
+            int[] due = {1, 0, 0, 300, 5};
+            for (int what = 0; what < due.length; what++) {
+                Check.same("bare about " + what, x.about(what), due[what]);
+            }
+            Check.same("hold", x.axis(0, 3), 1000);
+            Check.same("table", x.table(64, 1), 1000);
+            Check.same("table", x.table(0, 1), 0);
+        }
     }
 
     private static void lines() {
@@ -219,6 +241,8 @@ public final class BenchTest {
         fault(AXIS + "motor x hold 1 mass 1 damp 1;motor x ?", 5, 65);
         fault("fix 7 1;fix 8 1;fix 007 ?", 5, 20);
         fault("fix 7 0;fix 7 1;", 5, 12);
+        fault("fix 0 0;fix 0 1;", 5, 12);
+        fault("fix 64 0;fix 64 1;", 5, 13);
         fault("coil supply 1 loss 1; coil ?", 5, 22);
     }
 

@@ -78,6 +78,13 @@ public final class PathTest {
         MicroSteps within = Check.on("axis x speed 3 gain 1 jerk 1;band x 2 2;");
         // 1, 2, 3 twice are 12; the rest of 8 in 3 TICKS: 2, 3, 3
         path(within, to(20, 0, 0), 9, 0, 20, 3, 3, 3, 3);
+        // the rest of 2 in one TICK
+        path(within, to(14, 0, 0), 7, 0, 14, 3, 3, 3, 3);
+        MicroSteps first = Check.on(Check.ONE_AXIS + "band x 1 1;");
+        path(first, to(100, 0, 0), 15, 0, 100, 10, 10, 6, 2);
+        // 1, 3, 5, 7, 9, 10, then 8, 8, 9
+        path(Check.on(Check.ONE_AXIS + "band x 9 9;"), to(95, 0, 0), 15, 0, 95, 10, 10, 6, 3);
+        path(Check.on(Check.ONE_AXIS + "band x 8 8;"), to(95, 0, 0), 15, 0, 95, 10, 10, 6, 2);
         MicroSteps barred = Check.on("axis x speed 3 gain 1 jerk 1;band x 1 60;");
         path(barred, to(20, 0, 0), 20, 0, 20, 3, 0, 0, 20);
         MicroSteps others = Check.on(TWO + "band y 1 60;");
@@ -168,6 +175,10 @@ public final class PathTest {
         }
         Check.same("the last", x.stamp(100, 33, 0, 1, 33), x.stamp(100, 33, 0, 0, 99));
         Check.same("beyond", x.stamp(100, 33, 0, 1, 34), Check.NONE);
+        // y by 1 of 101: (2 * s + 101) / 202 = 1: s = 51; by 50 of 100: the first by s = 1, the second by s = 3
+        Check.same("by 1", x.stamp(101, 1, 0, 1, 1), x.stamp(101, 1, 0, 0, 51));
+        Check.same("half, 1st", x.stamp(100, 50, 0, 1, 1), x.stamp(100, 50, 0, 0, 1));
+        Check.same("half, 2nd", x.stamp(100, 50, 0, 1, 2), x.stamp(100, 50, 0, 0, 3));
     }
 
     private static void peaks() {
@@ -200,6 +211,17 @@ public final class PathTest {
         // 12: 1, 3, 5, 7, 9, 11, 12 are 48, and 104 in 9 TICKS; 11 takes 24
         Check.same("beyond its own speed", Check.on(Check.ONE_AXIS).needed(0, 200, 23), 12);
         Check.same("its widest", x.needed(0, 30000, 60000), 1);
+        Check.same("its least", x.needed(0, 1, 1), 1);
+        // 60: 10, 30, 50, 60 are 150, and 2,700 in 45 TICKS; 59 reaches 50
+        MicroSteps fast = Check.on("axis x speed 1 gain 30 jerk 10;");
+        Check.same("60", fast.needed(0, 3000, 53), 60);
+        Check.same("60", fast.quickest(0, 3000, 0), 60);
+        Check.same("60", fast.quickest(0, 3000, 1), 53);
+        // 1 can't be TOP, so it is 0: one by one
+        MicroSteps from0 = Check.on(Check.ONE_AXIS + "band x 1 1;");
+        Check.same("TOP 0", from0.needed(0, 5, 5), 1);
+        Check.same("TOP 0", from0.needed(0, 3, 2), Check.NONE);
+        Check.same("TOP 0", from0.quickest(0, 3, 1), 3);
         int[][] wrong = {{1, 1, 1}, {-1, 1, 1}, {0, 0, 1}, {0, 30001, 60000}, {0, 1, 0}, {0, 1, 60001}, {0, -5, 9}};
         for (int[] w : wrong) {
             Check.same("needed of what can't be", x.needed(w[0], w[1], w[2]), Check.NONE);
@@ -267,6 +289,9 @@ public final class PathTest {
         Check.same("there", x.now(1, 0), -30000);
         path(x, to(30000, 30000, 0), 60000, 0, 60000, 1, 1, 1, 0);
         Check.same("the last micro", x.stamp(30000, 30000, 0, 1, 60000), 60000000);
+        for (int k = 1; k <= 60000; k += 7) {
+            Check.same("one a tick " + k, x.stamp(30000, 30000, 0, 0, k), 1000 * k);
+        }
         Check.same("half way", x.pathAt(30000, 30000, 0, 1, 30000), 0);
         Check.same("most", x.most(30000, 29999, 0, 1), 1);
         Check.same("lead", x.path(-30000, 30000, 0, 1), 1);

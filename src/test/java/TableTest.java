@@ -71,6 +71,11 @@ public final class TableTest {
         MicroSteps near = Check.on("fix 64 -9;");
         // n = 0: 991 and c: 134 * 134 + 991 * 991 = 1,000,037; 133: 999,770
         Check.same("mend 0, either way", near.mend(0), -134);
+        // n = 10: TABLE 10 is 244, 54 is 969, 196 less: 444 and 773 have 891 (794,665), 443 has 890 (793,778)
+        MicroSteps up = Check.on("fix 54 -196;");
+        Check.same("table 10", up.table(10, 0), 244);
+        Check.same("table 54", up.table(54, 1), 773);
+        Check.same("mend 10, too far up", up.mend(10), 200);
         Check.same("mend 64 is as if it were not told", near.mend(64), 0);
         Check.same("mend does nothing", near.table(0, 1), 0);
         Check.same("below", x.mend(-1), Check.CANT);
