@@ -227,7 +227,7 @@ public final class MicroSteps {
         if (!isWithin(what, 0, 1) || !askMove(x, y, z)) {
             return NONE;
         }
-        return what == 0 ? asked.greatestChange() : asked.greatestJolt();
+        return asked.greatestChange(what == 1);
     }
 
     /** Promise 17. */
@@ -847,7 +847,7 @@ public final class MicroSteps {
             int kept = row[q];
             int best = 0;
             int nearest = Integer.MAX_VALUE;
-            for (int i = 0; i <= 2 * MOST_CORRECTION; i++) {
+            for (int i = 0; i <= 2 * MOST_CORRECTION && nearest > 0; i++) {
                 int size = (i + 1) / 2;
                 int correction = (i & 1) == 1 ? -size : size;
                 row[q] = plain[q] + correction;
@@ -1398,10 +1398,6 @@ public final class MicroSteps {
             return way - ramp.gone[ticks - k];
         }
 
-        int speedIn(int k) {
-            return goneBehind(k) - goneBehind(k - 1);
-        }
-
         int placeOf(int axis, int gone) {
             if (way < 1) {
                 return from[axis];
@@ -1449,28 +1445,19 @@ public final class MicroSteps {
             return count;
         }
 
-        int greatestChange() {
+        /** Of the speeds from TICK to TICK, or of those changes themselves. */
+        int greatestChange(boolean ofChanges) {
             int greatest = 0;
-            int last = 0;
-            int ticks = ticks();
-            for (int k = 1; k <= ticks + 1; k++) {
-                int next = speedIn(k);
-                greatest = Math.max(greatest, Math.abs(next - last));
-                last = next;
-            }
-            return greatest;
-        }
-
-        int greatestJolt() {
-            int greatest = 0;
+            int gone = 0;
             int last = 0;
             int lastChange = 0;
             int ticks = ticks();
             for (int k = 1; k <= ticks + 1; k++) {
-                int next = speedIn(k);
-                int change = next - last;
-                greatest = Math.max(greatest, Math.abs(change - lastChange));
-                last = next;
+                int goneNow = goneBehind(k);
+                int change = goneNow - gone - last;
+                greatest = Math.max(greatest, Math.abs(ofChanges ? change - lastChange : change));
+                last = goneNow - gone;
+                gone = goneNow;
                 lastChange = change;
             }
             return greatest;
