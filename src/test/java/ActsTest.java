@@ -1,8 +1,5 @@
 /** Promises 21 to 31: go, halt, run, queue, watch, load, trueUp, undo, axis, now, bands. */
 public final class ActsTest {
-    private static final String WEAK = Check.ONE_AXIS + "motor x hold 1 mass 40 damp 20;";
-    private static final String TWO = "axis x speed 10 gain 2 jerk 1;axis y speed 4 gain 2 jerk 1;";
-
     public static void main(String[] args) {
         go();
         run();
@@ -28,7 +25,7 @@ public final class ActsTest {
     }
 
     private static void go() {
-        MicroSteps x = Check.on(TWO);
+        MicroSteps x = Check.on(Check.TWO_AXES);
         Check.same("too far", x.go(30001, 0, 0), Check.NONE);
         Check.same("too far", x.go(0, -30001, 0), Check.NONE);
         Check.same("nothing goes", x.go(0, 0, 5), Check.NONE);
@@ -48,7 +45,7 @@ public final class ActsTest {
     }
 
     private static void run() {
-        MicroSteps x = Check.on(TWO);
+        MicroSteps x = Check.on(Check.TWO_AXES);
         Check.same("none", x.run(0), Check.NONE);
         Check.same("too many", x.run(501), Check.NONE);
         Check.same("below", x.run(-1), Check.NONE);
@@ -196,7 +193,7 @@ public final class ActsTest {
     }
 
     private static void queue() {
-        MicroSteps x = Check.on(TWO);
+        MicroSteps x = Check.on(Check.TWO_AXES);
         Check.same("none is on", x.queue(5, 5, 5), Check.NONE);
         x.go(10, 0, 0);
         Check.same("too far", x.queue(30001, 0, 0), Check.NONE);
@@ -257,7 +254,7 @@ public final class ActsTest {
     }
 
     private static void watch() {
-        MicroSteps x = Check.on(TWO);
+        MicroSteps x = Check.on(Check.TWO_AXES);
         Check.same("no axis", x.watch(2, 5), Check.NONE);
         Check.same("no axis", x.watch(-1, 5), Check.NONE);
         Check.same("below", x.watch(0, -1), Check.NONE);
@@ -273,7 +270,7 @@ public final class ActsTest {
     }
 
     private static void watchTrips() {
-        MicroSteps x = Check.on(WEAK + "axis y speed 9 gain 9 jerk 9;motor y hold 1 mass 40 damp 20;");
+        MicroSteps x = Check.on(Check.WEAK + "axis y speed 9 gain 9 jerk 9;motor y hold 1 mass 40 damp 20;");
         x.watch(0, 145);
         x.watch(1, 48);
         x.go(100, 100, 0);
@@ -292,7 +289,7 @@ public final class ActsTest {
         x.run(1);
         Check.same("both: the first", x.about(12), 0);
         Check.same("in tick 11", x.about(11), 11);
-        MicroSteps last = Check.on(WEAK);
+        MicroSteps last = Check.on(Check.WEAK);
         last.watch(0, 32);
         last.go(2, 0, 0);
         last.run(2);
@@ -301,7 +298,7 @@ public final class ActsTest {
         last.go(0, 0, 0);
         last.run(1);
         Check.same("16 is below 32", last.about(11), 0);
-        MicroSteps edge = Check.on(WEAK);
+        MicroSteps edge = Check.on(Check.WEAK);
         edge.watch(0, 144);
         edge.go(-100, 0, 0);
         edge.run(9);
@@ -309,7 +306,7 @@ public final class ActsTest {
     }
 
     private static void load() {
-        MicroSteps x = Check.on(TWO);
+        MicroSteps x = Check.on(Check.TWO_AXES);
         Check.same("no axis", x.load(2, 5), Check.CANT);
         Check.same("no axis", x.load(-1, 5), Check.CANT);
         Check.same("below", x.load(0, -2001), Check.CANT);
@@ -324,7 +321,7 @@ public final class ActsTest {
     }
 
     private static void trueUp() {
-        MicroSteps x = Check.on(WEAK + "axis y speed 9 gain 9 jerk 9;");
+        MicroSteps x = Check.on(Check.WEAK + "axis y speed 9 gain 9 jerk 9;");
         Check.same("none is elsewhere", x.trueUp(), Check.NONE);
         Check.same("no act", x.about(8), 0);
         x.go(100, 0, 0);
@@ -337,7 +334,7 @@ public final class ActsTest {
         now(x, 0, 0, 0, 0, 0, 0, 0);
         Check.same("one waits yet", x.about(10), 1);
         Check.same("from there", x.run(1), 2);
-        MicroSteps down = Check.on(TWO);
+        MicroSteps down = Check.on(Check.TWO_AXES);
         down.load(0, 100);
         down.load(1, 100);
         down.run(1);
@@ -394,7 +391,7 @@ public final class ActsTest {
     }
 
     private static void undoIsAll() {
-        MicroSteps x = Check.on(WEAK);
+        MicroSteps x = Check.on(Check.WEAK);
         x.go(100, 0, 0);
         x.queue(0, 0, 0);
         x.run(4);
@@ -462,7 +459,7 @@ public final class ActsTest {
     }
 
     private static void slipEdges() {
-        MicroSteps x = Check.on(WEAK);
+        MicroSteps x = Check.on(Check.WEAK);
         x.go(128, 0, 0);
         x.run(100);
         Check.same("angle", x.now(0, 3), 2048);
@@ -508,7 +505,7 @@ public final class ActsTest {
         Check.same("what", x.axis(0, -1), Check.CANT);
         Check.same("what", x.now(0, 6), Check.CANT);
         Check.same("what", x.now(0, -1), Check.CANT);
-        MicroSteps slip = Check.on(WEAK);
+        MicroSteps slip = Check.on(Check.WEAK);
         slip.go(256, 0, 0);
         slip.run(14);
         Check.holds("below half a cycle", slip.now(0, 3) < 2048);
@@ -519,7 +516,7 @@ public final class ActsTest {
     }
 
     private static void bands() {
-        MicroSteps x = Check.on(TWO + "band x 5 9;band x 9 12;band y 1 60;");
+        MicroSteps x = Check.on(Check.TWO_AXES + "band x 5 9;band x 9 12;band y 1 60;");
         Check.same("4", x.bands(0, 4), 0);
         Check.same("5", x.bands(0, 5), 1);
         Check.same("9", x.bands(0, 9), 2);

@@ -1,9 +1,5 @@
 /** Promises 32 to 40: stallIn, calmIn, carries, strain, swings, settles, shake, worst, unsafe. */
 public final class AheadTest {
-    private static final String WEAK = Check.ONE_AXIS + "motor x hold 1 mass 40 damp 20;";
-    /** PULL 1 or -1 at a QUARTER's end alone, so that a LOAD alone rules the ROTOR. */
-    private static final String LIGHT = Check.ONE_AXIS + "motor x hold 1 mass 1 damp 0;";
-
     public static void main(String[] args) {
         stallIn();
         calmIn();
@@ -19,7 +15,7 @@ public final class AheadTest {
     }
 
     private static void stallIn() {
-        MicroSteps x = Check.on(WEAK);
+        MicroSteps x = Check.on(Check.WEAK);
         Check.same("not", x.stallIn(0), Check.NONE);
         x.go(100, 0, 0);
         // 65 MICROS behind 9 TICKS: 1,040
@@ -30,12 +26,12 @@ public final class AheadTest {
         Check.same("is", x.stallIn(0), 0);
         Check.same("no axis", x.stallIn(1), Check.NONE);
         Check.same("no axis", x.stallIn(-1), Check.NONE);
-        MicroSteps first = Check.on(LIGHT);
+        MicroSteps first = Check.on(Check.LIGHT);
         first.load(0, 1024);
         Check.same("in the first tick of all", first.stallIn(0), 1);
         first.run(1);
         Check.same("it was", first.stallIn(0), 0);
-        MicroSteps waits = Check.on(WEAK);
+        MicroSteps waits = Check.on(Check.WEAK);
         waits.go(40, 0, 0);
         waits.queue(100, 0, 0);
         int ticks = waits.path(40, 0, 0, 0);
@@ -43,10 +39,10 @@ public final class AheadTest {
         Check.same("in one that waits", waits.stallIn(0), ticks + 5);
         waits.watch(0, 500);
         Check.same("tripped ahead of it", waits.stallIn(0), Check.NONE);
-        MicroSteps edge = Check.on(WEAK);
+        MicroSteps edge = Check.on(Check.WEAK);
         edge.go(64, 0, 0);
         Check.same("1,024 just at its end", edge.stallIn(0), edge.path(64, 0, 0, 0));
-        MicroSteps below = Check.on(WEAK);
+        MicroSteps below = Check.on(Check.WEAK);
         below.go(-63, 0, 0);
         Check.same("1,008 is not", below.stallIn(0), Check.NONE);
         MicroSteps late = Check.on("axis x speed 1 gain 1 jerk 1;motor x hold 1 mass 999 damp 0;axis y speed 1 gain 1 jerk 1;");
@@ -65,7 +61,7 @@ public final class AheadTest {
 
     private static void calmIn() {
         Check.same("no axes", new MicroSteps().calmIn(), Check.NONE);
-        MicroSteps x = Check.on(WEAK);
+        MicroSteps x = Check.on(Check.WEAK);
         Check.same("now", x.calmIn(), 0);
         x.go(10, 0, 0);
         Check.same("behind the move", x.calmIn(), 6);
@@ -75,7 +71,7 @@ public final class AheadTest {
         Check.same("it waits", x.calmIn(), 1);
         x.run(1);
         Check.same("calm", x.calmIn(), 0);
-        MicroSteps light = Check.on(LIGHT);
+        MicroSteps light = Check.on(Check.LIGHT);
         light.load(0, 5);
         Check.same("never", light.calmIn(), Check.NONE);
         light.run(1);
@@ -101,7 +97,7 @@ public final class AheadTest {
     }
 
     private static void carries() {
-        MicroSteps x = Check.on(LIGHT);
+        MicroSteps x = Check.on(Check.LIGHT);
         // SWING is LOAD each TICK more: LOAD * n * (n + 1) / 2 below 1,024
         Check.same("1 tick", x.carries(0, 1), 1023);
         // 341 * 3 = 1,023
@@ -115,14 +111,14 @@ public final class AheadTest {
         Check.same("stalled", x.carries(0, 1), Check.NONE);
         int[][] wrong = {{1, 1}, {-1, 1}, {0, 0}, {0, 201}};
         for (int[] w : wrong) {
-            Check.same("carries of what can't be", Check.on(LIGHT).carries(w[0], w[1]), Check.NONE);
+            Check.same("carries of what can't be", Check.on(Check.LIGHT).carries(w[0], w[1]), Check.NONE);
         }
-        MicroSteps swung = Check.on(LIGHT);
+        MicroSteps swung = Check.on(Check.LIGHT);
         swung.load(0, -600);
         swung.run(1);
         // PLACE 600 and SWING 600 ahead: LOADS below 177 stall, greater ones hold it back
         Check.same("greater ones hold", swung.carries(0, 1), 2000);
-        MicroSteps none = Check.on(LIGHT);
+        MicroSteps none = Check.on(Check.LIGHT);
         none.load(0, -1000);
         none.run(1);
         none.load(0, 0);
@@ -131,13 +127,13 @@ public final class AheadTest {
     }
 
     private static void strain() {
-        MicroSteps x = Check.on(WEAK);
+        MicroSteps x = Check.on(Check.WEAK);
         Check.same("none", x.strain(0, 1), 0);
         x.go(-100, 0, 0);
         Check.same("1 tick", x.strain(0, 1), 16);
         Check.same("2 ticks", x.strain(0, 2), 64);
         Check.same("all", x.strain(0, 1000), 1600);
-        MicroSteps light = Check.on(LIGHT);
+        MicroSteps light = Check.on(Check.LIGHT);
         light.load(0, 100);
         light.run(1);
         light.load(0, -150);
@@ -168,7 +164,7 @@ public final class AheadTest {
         }
         x.load(0, 2000);
         Check.same("by the load", x.swings(0, 0, 1), 1);
-        MicroSteps light = Check.on(LIGHT);
+        MicroSteps light = Check.on(Check.LIGHT);
         Check.same("no pull", light.swings(0, 1000, 500), 0);
         int[][] wrong = {{1, 1, 1}, {-1, 1, 1}, {0, 1024, 1}, {0, -1024, 1}, {0, 1, 0}, {0, 1, 501}};
         for (int[] w : wrong) {
@@ -184,7 +180,7 @@ public final class AheadTest {
         Check.same("at once", x.settles(0, -31), 0);
         // SINE of 2 is 49: pushed by 1, damped by 0: from 32 to 31, SWING 1 stays by DAMP 20 ..
         Check.holds("not at once", x.settles(0, 32) != 0);
-        MicroSteps light = Check.on(LIGHT);
+        MicroSteps light = Check.on(Check.LIGHT);
         Check.same("no pull", light.settles(0, 1023), 0);
         light.load(0, 1);
         Check.same("never", light.settles(0, 0), Check.NONE);
@@ -200,12 +196,12 @@ public final class AheadTest {
     }
 
     private static void shake() {
-        MicroSteps x = Check.on(WEAK);
+        MicroSteps x = Check.on(Check.WEAK);
         Check.same("none", x.shake(0, 0, 500), 0);
         Check.same("1 by 1", x.shake(0, 1, 1), 16);
         Check.same("7 by 9", x.shake(0, 7, 9), 7 * 9 * 16);
         Check.same("60 by 5", x.shake(0, 60, 5), 4800);
-        MicroSteps light = Check.on(LIGHT);
+        MicroSteps light = Check.on(Check.LIGHT);
         light.load(0, 32);
         // ANGLE 16 + 32, 32 + 96, 48 + 192
         Check.same("loaded", light.shake(0, 1, 3), 240);
@@ -221,9 +217,9 @@ public final class AheadTest {
     }
 
     private static void worst() {
-        MicroSteps x = Check.on(WEAK);
+        MicroSteps x = Check.on(Check.WEAK);
         Check.same("the fastest", x.worst(0, 5), 10);
-        MicroSteps light = Check.on(LIGHT);
+        MicroSteps light = Check.on(Check.LIGHT);
         light.load(0, -50);
         // by 1: 34; 2: 18; 3: 2; 4: 14; .. 6: 46; .. 10: 110
         Check.same("the fastest", light.worst(0, 1), 10);
@@ -240,12 +236,12 @@ public final class AheadTest {
     }
 
     private static void unsafe() {
-        MicroSteps x = Check.on(WEAK);
+        MicroSteps x = Check.on(Check.WEAK);
         // 8 TICKS by 8: 64 MICROS
         Check.same("8, 9, 10", x.unsafe(0, 8), 3);
         Check.same("none", x.unsafe(0, 6), 0);
         Check.same("10", x.unsafe(0, 7), 1);
-        MicroSteps banded = Check.on(WEAK + "band x 9 9;band x 9 12;");
+        MicroSteps banded = Check.on(Check.WEAK + "band x 9 9;band x 9 12;");
         Check.same("8", banded.unsafe(0, 8), 1);
         int[][] wrong = {{1, 1}, {-1, 1}, {0, 0}, {0, 101}};
         for (int[] w : wrong) {
@@ -255,7 +251,7 @@ public final class AheadTest {
     }
 
     private static void nothingIsDone() {
-        MicroSteps x = Check.on(WEAK);
+        MicroSteps x = Check.on(Check.WEAK);
         x.go(100, 0, 0);
         x.queue(0, 0, 0);
         x.watch(0, 2000);

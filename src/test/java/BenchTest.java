@@ -145,126 +145,113 @@ public final class BenchTest {
         Check.same("loss", x.about(4), 99);
         Check.same("fix below 0", x.table(0, 1), -200);
         Check.same("fix above 0", x.table(64, 1), 1200);
-        fits("");
-        fits(" \n \n");
-        fits("coil supply 1 loss 1;");
-        fits(AXIS + "motor x hold 1 mass 1 damp 1;");
+        Check.fits("");
+        Check.fits(" \n \n");
+        Check.fits("coil supply 1 loss 1;");
+        Check.fits(AXIS + "motor x hold 1 mass 1 damp 1;");
     }
 
     private static void noToken() {
-        fault("?", 1, 0);
-        fault(AXIS + " \t", 1, 31);
-        fault("Axis x", 1, 0);
-        fault("axis \u00e9", 1, 5);
-        fault("axis abcdefg speed", 1, 5);
-        fits("axis abcdef speed 1 gain 1 jerk 1;");
-        fault("axis x speed 000010 gain", 1, 13);
-        fits("axis x speed 00010 gain 1 jerk 1;");
-        fault("axis x speed 10gain 2", 1, 13);
-        fault("axis x speed 1 gain 2,", 1, 21);
-        fault("coilsup", 1, 0);
+        Check.fault("?", 1, 0);
+        Check.fault(AXIS + " \t", 1, 31);
+        Check.fault("Axis x", 1, 0);
+        Check.fault("axis \u00e9", 1, 5);
+        Check.fault("axis abcdefg speed", 1, 5);
+        Check.fits("axis abcdef speed 1 gain 1 jerk 1;");
+        Check.fault("axis x speed 000010 gain", 1, 13);
+        Check.fits("axis x speed 00010 gain 1 jerk 1;");
+        Check.fault("axis x speed 10gain 2", 1, 13);
+        Check.fault("axis x speed 1 gain 2,", 1, 21);
+        Check.fault("coilsup", 1, 0);
     }
 
     private static void cantStand() {
-        fault("axis", 2, 4);
-        fault("axis ", 2, 5);
-        fault("5", 2, 0);
-        fault(";", 2, 0);
-        fault("-", 2, 0);
-        fault("speed 5;", 2, 0);
-        fault("axes x", 2, 0);
-        fault("axis 5", 2, 5);
-        fault("axis axis", 2, 5);
+        Check.fault("axis", 2, 4);
+        Check.fault("axis ", 2, 5);
+        Check.fault("5", 2, 0);
+        Check.fault(";", 2, 0);
+        Check.fault("-", 2, 0);
+        Check.fault("speed 5;", 2, 0);
+        Check.fault("axes x", 2, 0);
+        Check.fault("axis 5", 2, 5);
+        Check.fault("axis axis", 2, 5);
         for (String word : Model.WORDS) {
-            fault("axis " + word + " speed 1", 2, 5);
-            fault(AXIS + "motor " + word, 2, 36);
-            fault(AXIS + "band " + word, 2, 35);
+            Check.fault("axis " + word + " speed 1", 2, 5);
+            Check.fault(AXIS + "motor " + word, 2, 36);
+            Check.fault(AXIS + "band " + word, 2, 35);
         }
-        fault("axis x gain 5", 2, 7);
-        fault("axis x speed x", 2, 13);
-        fault("axis x speed -5", 2, 13);
-        fault("axis x speed 1 gain 1 jerk 1", 2, 28);
-        fault("axis x speed 1 gain 1 jerk 1 1", 2, 29);
-        fault(AXIS + "motor x mass 1", 2, 38);
-        fault(AXIS + "band x 5;", 2, 38);
-        fault(AXIS + "band x -5 6;", 2, 37);
-        fault("fix - 3 4;", 2, 4);
-        fault("fix 3 - - 4;", 2, 8);
-        fault("fix 3 -;", 2, 7);
-        fault("fix 3;", 2, 5);
-        fault("coil loss 5", 2, 5);
-        fault("coil supply 5 loss 5 5;", 2, 21);
+        Check.fault("axis x gain 5", 2, 7);
+        Check.fault("axis x speed x", 2, 13);
+        Check.fault("axis x speed -5", 2, 13);
+        Check.fault("axis x speed 1 gain 1 jerk 1", 2, 28);
+        Check.fault("axis x speed 1 gain 1 jerk 1 1", 2, 29);
+        Check.fault(AXIS + "motor x mass 1", 2, 38);
+        Check.fault(AXIS + "band x 5;", 2, 38);
+        Check.fault(AXIS + "band x -5 6;", 2, 37);
+        Check.fault("fix - 3 4;", 2, 4);
+        Check.fault("fix 3 - - 4;", 2, 8);
+        Check.fault("fix 3 -;", 2, 7);
+        Check.fault("fix 3;", 2, 5);
+        Check.fault("coil loss 5", 2, 5);
+        Check.fault("coil supply 5 loss 5 5;", 2, 21);
     }
 
     private static void names() {
-        fault(AXIS + "axis x speed", 3, 35);
-        fault("motor x hold 1", 3, 6);
-        fault("band x 1 2;", 3, 5);
-        fault(AXIS + "motor y hold", 3, 36);
-        fault(AXIS + "band xx 1 2;", 3, 35);
-        fault("band x 1 2;" + AXIS, 3, 5);
+        Check.fault(AXIS + "axis x speed", 3, 35);
+        Check.fault("motor x hold 1", 3, 6);
+        Check.fault("band x 1 2;", 3, 5);
+        Check.fault(AXIS + "motor y hold", 3, 36);
+        Check.fault(AXIS + "band xx 1 2;", 3, 35);
+        Check.fault("band x 1 2;" + AXIS, 3, 5);
     }
 
     private static void numbers() {
-        fault("axis x speed 0 gain", 4, 13);
-        fault("axis x speed 61 gain", 4, 13);
-        fault("axis x speed 60 gain 0 jerk", 4, 21);
-        fault("axis x speed 60 gain 31 jerk", 4, 21);
-        fault("axis x speed 60 gain 30 jerk 0;", 4, 29);
-        fault("axis x speed 60 gain 30 jerk 11;", 4, 29);
-        fault(AXIS + "motor x hold 0", 4, 43);
-        fault(AXIS + "motor x hold 10000", 4, 43);
-        fault(AXIS + "motor x hold 1 mass 0", 4, 50);
-        fault(AXIS + "motor x hold 1 mass 1000", 4, 50);
-        fault(AXIS + "motor x hold 1 mass 1 damp 91", 4, 57);
-        fault(AXIS + "band x 0 5;", 4, 37);
-        fault(AXIS + "band x 61 61;", 4, 37);
-        fault(AXIS + "band x 5 61;", 4, 39);
-        fault(AXIS + "band x 5 4;", 4, 39);
-        fits(AXIS + "band x 5 5;");
-        fault("fix 65 1;", 4, 4);
-        fault("fix 64 201;", 4, 7);
-        fault("fix 64 -  201;", 4, 10);
-        fault("coil supply 0", 4, 12);
-        fault("coil supply 2001", 4, 12);
-        fault("coil supply 1 loss 0", 4, 19);
-        fault("coil supply 1 loss 100", 4, 19);
+        Check.fault("axis x speed 0 gain", 4, 13);
+        Check.fault("axis x speed 61 gain", 4, 13);
+        Check.fault("axis x speed 60 gain 0 jerk", 4, 21);
+        Check.fault("axis x speed 60 gain 31 jerk", 4, 21);
+        Check.fault("axis x speed 60 gain 30 jerk 0;", 4, 29);
+        Check.fault("axis x speed 60 gain 30 jerk 11;", 4, 29);
+        Check.fault(AXIS + "motor x hold 0", 4, 43);
+        Check.fault(AXIS + "motor x hold 10000", 4, 43);
+        Check.fault(AXIS + "motor x hold 1 mass 0", 4, 50);
+        Check.fault(AXIS + "motor x hold 1 mass 1000", 4, 50);
+        Check.fault(AXIS + "motor x hold 1 mass 1 damp 91", 4, 57);
+        Check.fault(AXIS + "band x 0 5;", 4, 37);
+        Check.fault(AXIS + "band x 61 61;", 4, 37);
+        Check.fault(AXIS + "band x 5 61;", 4, 39);
+        Check.fault(AXIS + "band x 5 4;", 4, 39);
+        Check.fits(AXIS + "band x 5 5;");
+        Check.fault("fix 65 1;", 4, 4);
+        Check.fault("fix 64 201;", 4, 7);
+        Check.fault("fix 64 -  201;", 4, 10);
+        Check.fault("coil supply 0", 4, 12);
+        Check.fault("coil supply 2001", 4, 12);
+        Check.fault("coil supply 1 loss 0", 4, 19);
+        Check.fault("coil supply 1 loss 100", 4, 19);
     }
 
     private static void tooMany() {
         String three = "axis a speed 1 gain 1 jerk 1;axis b speed 1 gain 1 jerk 1;axis c speed 1 gain 1 jerk 1;";
-        fits(three);
-        fault(three + " axis a speed ?", 5, 88);
+        Check.fits(three);
+        Check.fault(three + " axis a speed ?", 5, 88);
         String six = AXIS + "band x 1 1;band x 1 2;band x 1 3;band x 1 4;band x 1 5;band x 1 6;";
-        fits(six);
-        fault(six + "band ? 0", 5, 96);
-        fault(AXIS + "motor x hold 1 mass 1 damp 1;motor x ?", 5, 65);
-        fault("fix 7 1;fix 8 1;fix 007 ?", 5, 20);
-        fault("fix 7 0;fix 7 1;", 5, 12);
-        fault("fix 0 0;fix 0 1;", 5, 12);
-        fault("fix 64 0;fix 64 1;", 5, 13);
-        fault("coil supply 1 loss 1; coil ?", 5, 22);
+        Check.fits(six);
+        Check.fault(six + "band ? 0", 5, 96);
+        Check.fault(AXIS + "motor x hold 1 mass 1 damp 1;motor x ?", 5, 65);
+        Check.fault("fix 7 1;fix 8 1;fix 007 ?", 5, 20);
+        Check.fault("fix 7 0;fix 7 1;", 5, 12);
+        Check.fault("fix 0 0;fix 0 1;", 5, 12);
+        Check.fault("fix 64 0;fix 64 1;", 5, 13);
+        Check.fault("coil supply 1 loss 1; coil ?", 5, 22);
     }
 
     private static void firstByPlace() {
-        fault("fix 65 1; ?", 4, 4);
-        fault("axis x speed 99 ?", 4, 13);
-        fault("axis x speed 99a", 1, 13);
-        fault("abcdefg", 1, 0);
-        fault(AXIS + "axis x ?", 3, 35);
-    }
-
-    private static void fits(String text) {
-        MicroSteps x = new MicroSteps();
-        Check.holds("fits: " + text, Check.bench(x, text) != Check.NONE);
-        fault(x, 0, Check.NONE);
-    }
-
-    private static void fault(String text, int code, int place) {
-        MicroSteps x = new MicroSteps();
-        Check.same("bench of " + text, Check.bench(x, text), Check.NONE);
-        Check.same("fault of " + text, x.fault(0), code);
-        Check.same("place in " + text, x.fault(1), place);
+        Check.fault("fix 65 1; ?", 4, 4);
+        Check.fault("axis x speed 99 ?", 4, 13);
+        Check.fault("axis x speed 99a", 1, 13);
+        Check.fault("abcdefg", 1, 0);
+        Check.fault(AXIS + "axis x ?", 3, 35);
     }
 
     private static void fault(MicroSteps x, int code, int place) {

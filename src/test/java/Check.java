@@ -1,23 +1,46 @@
 import java.nio.charset.StandardCharsets;
 import java.util.Arrays;
+import java.util.function.IntSupplier;
 
-/** What the tests share: told answers, and benches fed as texts. */
+/** What the tests share: told answers, sentences of the document, and benches fed as texts. */
 final class Check {
     static final int NONE = -1;
     static final int CANT = Integer.MIN_VALUE;
     static final String ONE_AXIS = "axis x speed 10 gain 2 jerk 1;";
+    static final String TWO_AXES = "axis x speed 10 gain 2 jerk 1;axis y speed 4 gain 2 jerk 1;";
+    /** A rotor that nothing but a load moves. */
+    static final String WEAK = ONE_AXIS + "motor x hold 1 mass 40 damp 20;";
+    /** PULL is 1 or -1 at a QUARTER's end alone, so that a LOAD alone rules the ROTOR. */
+    static final String LIGHT = ONE_AXIS + "motor x hold 1 mass 1 damp 0;";
 
     private static int wrong = 0;
     private static int asked = 0;
+    private static int askedAhead = 0;
+    private static String sentence = "";
 
     private Check() {
+    }
+
+    /** What is looked at from here on belongs to these words of the document, told or used by that promise. */
+    static void sentence(int promise, String words) {
+        closeSentence();
+        sentence = "promise " + promise + " (" + words + "): ";
+        askedAhead = asked;
+    }
+
+    private static void closeSentence() {
+        if (!sentence.isEmpty() && asked == askedAhead) {
+            wrong++;
+            System.out.println(sentence + "nothing was looked at");
+        }
+        sentence = "";
     }
 
     static void same(String what, long got, long due) {
         asked++;
         if (got != due) {
             wrong++;
-            System.out.println(what + " answered " + got + ", due is " + due);
+            System.out.println(sentence + what + " answered " + got + ", due is " + due);
         }
     }
 
@@ -25,7 +48,42 @@ final class Check {
         same(what, is ? 1 : 0, 1);
     }
 
+    /** The call answers so, and nothing that can be asked is another than ahead of it. */
+    static void doesNothing(String what, MicroSteps x, IntSupplier call, int due) {
+        String ahead = allOf(x);
+        same(what, call.getAsInt(), due);
+        String behind = allOf(x);
+        holds(what + " does nothing: " + ahead + " is " + behind, ahead.equals(behind));
+    }
+
+    /** All that can be asked of what there is, and of what comes soon. */
+    static String allOf(MicroSteps x) {
+        StringBuilder all = new StringBuilder();
+        for (int what = 0; what <= 12; what++) {
+            all.append(x.about(what)).append(' ');
+        }
+        all.append(x.fault(0)).append(' ').append(x.fault(1));
+        for (int a = 0; a < x.about(0); a++) {
+            all.append(" | axis ").append(a);
+            for (int what = 0; what <= 7; what++) {
+                all.append(' ').append(x.axis(a, what));
+            }
+            all.append(" now");
+            for (int what = 0; what <= 5; what++) {
+                all.append(' ').append(x.now(a, what));
+            }
+            all.append(" ahead ").append(x.strain(a, 1)).append(' ').append(x.strain(a, 300)).append(' ')
+                .append(x.stallIn(a));
+        }
+        all.append(" | ").append(x.calmIn());
+        for (int q = 0; q <= 64; q++) {
+            all.append(' ').append(x.table(q, 1));
+        }
+        return all.toString();
+    }
+
     static void finish() {
+        closeSentence();
         System.out.println(asked + " looked at, " + wrong + " wrong");
         if (wrong != 0 || asked == 0) {
             System.exit(1);
@@ -67,5 +125,26 @@ final class Check {
             same("fault of " + text + " at " + x.fault(1), x.fault(0), 0);
         }
         return x;
+    }
+
+    static void fits(String text) {
+        MicroSteps x = new MicroSteps();
+        holds("fits: " + text, bench(x, text) != NONE);
+        same("fault of " + text, x.fault(0), 0);
+        same("place in " + text, x.fault(1), NONE);
+    }
+
+    static void fault(String text, int code, int place) {
+        MicroSteps x = new MicroSteps();
+        same("bench of " + text, bench(x, text), NONE);
+        same("fault of " + text, x.fault(0), code);
+        same("place in " + text, x.fault(1), place);
+    }
+
+    /** Where an axis is, PLACE, SWING, ANGLE, the TICK of its stall, cycles slipped: as many as are told. */
+    static void now(String name, MicroSteps x, int axis, int... due) {
+        for (int what = 0; what < due.length; what++) {
+            same(name + ": now of axis " + axis + " what " + what, x.now(axis, what), due[what]);
+        }
     }
 }

@@ -1,7 +1,5 @@
 /** Promises 13 to 20: path, pathAt, stamp, peak, needed, most, drives, quickest. */
 public final class PathTest {
-    private static final String TWO = "axis x speed 10 gain 2 jerk 1;axis y speed 4 gain 2 jerk 1;";
-
     public static void main(String[] args) {
         alone();
         short1();
@@ -87,13 +85,13 @@ public final class PathTest {
         path(Check.on(Check.ONE_AXIS + "band x 8 8;"), to(95, 0, 0), 15, 0, 95, 10, 10, 6, 2);
         MicroSteps barred = Check.on("axis x speed 3 gain 1 jerk 1;band x 1 60;");
         path(barred, to(20, 0, 0), 20, 0, 20, 3, 0, 0, 20);
-        MicroSteps others = Check.on(TWO + "band y 1 60;");
+        MicroSteps others = Check.on(Check.TWO_AXES + "band y 1 60;");
         path(others, to(100, 0, 0), 15, 0, 100, 10, 10, 6, 0);
         path(others, to(100, 50, 0), 17, 0, 100, 8, 8, 5, 0);
     }
 
     private static void several() {
-        MicroSteps x = Check.on(TWO);
+        MicroSteps x = Check.on(Check.TWO_AXES);
         path(x, to(100, 50, 0), 17, 0, 100, 8, 8, 5, 0);
         // 1, 3, 4 twice are 16; the rest of 34 in 9 TICKS
         path(x, to(50, 50, 0), 15, 0, 50, 4, 4, 3, 0);
@@ -115,7 +113,7 @@ public final class PathTest {
     }
 
     private static void fromWhereAxesAre() {
-        MicroSteps x = Check.on(TWO);
+        MicroSteps x = Check.on(Check.TWO_AXES);
         x.go(10, -5, 0);
         x.run(50);
         Check.same("nothing goes", x.path(10, -5, 0, 0), Check.NONE);
@@ -129,7 +127,7 @@ public final class PathTest {
     }
 
     private static void wrongMoves() {
-        MicroSteps x = Check.on(TWO);
+        MicroSteps x = Check.on(Check.TWO_AXES);
         int[][] wrong = {{30001, 0}, {-30001, 0}, {0, 30001}, {0, -30001}, {0, 0}};
         for (int[] to : wrong) {
             Check.same("path", x.path(to[0], to[1], 0, 0), Check.NONE);
@@ -156,7 +154,7 @@ public final class PathTest {
     }
 
     private static void stamps() {
-        MicroSteps x = Check.on(TWO);
+        MicroSteps x = Check.on(Check.TWO_AXES);
         // TICKS of 1, 3, 5 ..
         int[] due = {1000, 1333, 1666, 2000, 2200, 2400, 2600, 2800, 3000};
         for (int k = 1; k <= due.length; k++) {
