@@ -71,39 +71,39 @@ public final class ActsTest {
         x.go(100, 0, 0);
         x.run(1);
         // ANGLE 16: PULL 24; 24 / 40 is 0
-        now(x, 0, 1, 0, 0, 16, 0, 0);
+        Check.now("rotor", x, 0, 1, 0, 0, 16, 0, 0);
         x.run(1);
         // at 4: ANGLE 64: SINE of 4 is 99; 99 / 40 = 2; 2 - 2 * 20 / 100 = 2
-        now(x, 0, 4, 2, 2, 62, 0, 0);
+        Check.now("rotor", x, 0, 4, 2, 2, 62, 0, 0);
         x.run(1);
         // at 9: ANGLE 142: SINE of 8 is 196; 196 / 40 = 4; 6 - 6 * 20 / 100 = 5
-        now(x, 0, 9, 7, 5, 137, 0, 0);
+        Check.now("rotor", x, 0, 9, 7, 5, 137, 0, 0);
         MicroSteps back = Check.on(Check.ONE_AXIS);
         back.go(-100, 0, 0);
         back.run(3);
-        now(back, 0, -9, -7, -5, -137, 0, 0);
+        Check.now("rotor", back, 0, -9, -7, -5, -137, 0, 0);
         MicroSteps fixed = Check.on(Check.ONE_AXIS + "fix 4 200; fix 8 200;");
         fixed.go(100, 0, 0);
         fixed.run(3);
-        now(fixed, 0, 9, 7, 5, 137, 0, 0);
+        Check.now("rotor", fixed, 0, 9, 7, 5, 137, 0, 0);
         MicroSteps loaded = Check.on(Check.ONE_AXIS);
         loaded.load(0, 2000);
         loaded.run(1);
         // (0 - 2000) / 40 = -50; -50 + 50 * 20 / 100 = -40
-        now(loaded, 0, 0, -40, -40, 40, 0, 0);
+        Check.now("rotor", loaded, 0, 0, -40, -40, 40, 0, 0);
         loaded.run(1);
         // SINE of 2 is 49: (49 - 2000) / 40 = -48; -88 + 17 = -71
-        now(loaded, 0, 0, -111, -71, 111, 0, 0);
+        Check.now("rotor", loaded, 0, 0, -111, -71, 111, 0, 0);
     }
 
     private static void swingEdges() {
         MicroSteps x = Check.on(Check.ONE_AXIS + "motor x hold 1 mass 1 damp 0;");
         x.load(0, -2000);
         x.run(1);
-        now(x, 0, 0, 2000, 2000, -2000, 1, 0);
+        Check.now("rotor", x, 0, 0, 2000, 2000, -2000, 1, 0);
         x.run(1);
         // 4,000, but 2,000 at the most
-        now(x, 0, 0, 4000, 2000, -4000, 1, -1);
+        Check.now("rotor", x, 0, 0, 4000, 2000, -4000, 1, -1);
         x.load(0, 2000);
         x.run(4);
         // 0, -2,000, -2,000 (of -4,000), -2,000
@@ -116,12 +116,6 @@ public final class ActsTest {
         damped.run(1);
         // 3,800 less 380 is 3,420: the bound is behind the damping
         Check.same("2000", damped.now(0, 2), 2000);
-    }
-
-    private static void now(MicroSteps x, int axis, int... due) {
-        for (int what = 0; what < due.length; what++) {
-            Check.same("now what " + what + " in tick " + x.about(5), x.now(axis, what), due[what]);
-        }
     }
 
     private static void halt() {
@@ -331,7 +325,7 @@ public final class ActsTest {
         x.run(6);
         Check.same("stalled", x.now(0, 4), 9);
         Check.same("one", x.trueUp(), 1);
-        now(x, 0, 0, 0, 0, 0, 0, 0);
+        Check.now("rotor", x, 0, 0, 0, 0, 0, 0, 0);
         Check.same("one waits yet", x.about(10), 1);
         Check.same("from there", x.run(1), 2);
         MicroSteps down = Check.on(Check.TWO_AXES);
@@ -340,7 +334,7 @@ public final class ActsTest {
         down.run(1);
         // -2: -1 downwards
         Check.same("both", down.trueUp(), 2);
-        now(down, 0, -1, -2, -2, -14, 0, 0);
+        Check.now("rotor", down, 0, -1, -2, -2, -14, 0, 0);
         Check.same("swing stays", down.now(1, 2), -2);
         Check.same("acts", down.about(8), 4);
     }

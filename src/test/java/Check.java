@@ -13,6 +13,11 @@ final class Check {
     /** PULL is 1 or -1 at a QUARTER's end alone, so that a LOAD alone rules the ROTOR. */
     static final String LIGHT = ONE_AXIS + "motor x hold 1 mass 1 damp 0;";
 
+    /** A MICRO a TICK, and a rotor that stays: the ANGLE is 16 more each TICK. */
+    static final String SLOW = "axis x speed 1 gain 1 jerk 1;motor x hold 1 mass 40 damp 20;";
+    static final int LEAST = Integer.MIN_VALUE;
+    static final int MOST = Integer.MAX_VALUE;
+
     private static int wrong = 0;
     private static int asked = 0;
     private static int askedAhead = 0;
@@ -146,5 +151,42 @@ final class Check {
         for (int what = 0; what < due.length; what++) {
             same(name + ": now of axis " + axis + " what " + what, x.now(axis, what), due[what]);
         }
+    }
+
+    /** The RAMP has these speeds, and no more. */
+    static void ramp(int v, int a, int j, int... speeds) {
+        MicroSteps x = new MicroSteps();
+        String name = "ramp " + v + " " + a + " " + j;
+        int sum = 0;
+        for (int k = 1; k <= speeds.length; k++) {
+            same(name + " at " + k, x.rampAt(v, a, j, k), speeds[k - 1]);
+            sum += speeds[k - 1];
+        }
+        same(name + " ticks", x.ramp(v, a, j, 0), speeds.length);
+        same(name + " reaches", x.ramp(v, a, j, 1), speeds.length == 0 ? 0 : speeds[speeds.length - 1]);
+        same(name + " micros", x.ramp(v, a, j, 2), sum);
+        same(name + " at 0", x.rampAt(v, a, j, 0), NONE);
+        same(name + " no more", x.rampAt(v, a, j, speeds.length + 1), NONE);
+    }
+
+    /** TICKS, LEAD, WAY, SPEED, the speed reached, TICKS of the RAMP, TICKS in BANDS: as many as are told. */
+    static void path(String name, MicroSteps x, int[] to, int... due) {
+        for (int what = 0; what < due.length; what++) {
+            same(name + ": path to " + to[0] + " " + to[1] + " " + to[2] + " what " + what,
+                x.path(to[0], to[1], to[2], what), due[what]);
+        }
+    }
+
+    static int[] to(int x, int y, int z) {
+        return new int[] {x, y, z};
+    }
+
+    /** By a step more each time. */
+    static int[] by(int step, int n) {
+        int[] all = new int[n];
+        for (int i = 0; i < n; i++) {
+            all[i] = step * (i + 1);
+        }
+        return all;
     }
 }

@@ -2,11 +2,6 @@ import java.util.function.Consumer;
 
 /** The edges that promises 21 to 31 name, one sentence of the document after the other. */
 public final class EdgesActTest {
-    private static final int LEAST = Integer.MIN_VALUE;
-    private static final int MOST = Integer.MAX_VALUE;
-    /** A MICRO a TICK, and a rotor that stays: the ANGLE is 16 more each TICK. */
-    private static final String SLOW = "axis x speed 1 gain 1 jerk 1;motor x hold 1 mass 40 damp 20;";
-
     public static void main(String[] args) {
         promise21();
         promise22();
@@ -33,20 +28,20 @@ public final class EdgesActTest {
     private static void promise21() {
         Check.sentence(21, "A MOVE begins: how many TICKS it takes");
         MicroSteps x = Check.on(Check.TWO_AXES);
-        Check.same("go", x.go(70, 7, MOST), 12);
+        Check.same("go", x.go(70, 7, Check.MOST), 12);
         Check.same("on", x.about(6), 1);
         Check.same("left", x.about(7), 12);
         Check.same("it is where it was", x.now(0, 0), 0);
         Check.same("an act", x.about(8), 1);
-        Check.same("the farthest", Check.on(SLOW).go(30000, 0, 0), 30000);
-        Check.same("the farthest", Check.on(SLOW).go(-30000, 0, 0), 30000);
+        Check.same("the farthest", Check.on(Check.SLOW).go(30000, 0, 0), 30000);
+        Check.same("the farthest", Check.on(Check.SLOW).go(-30000, 0, 0), 30000);
         Check.sentence(21, "NONE, doing nothing, if it can't be, nothing goes, or one is on");
         Check.doesNothing("one is on", x, () -> x.go(5, 5, 0), Check.NONE);
         x.run(3);
         x.halt();
         Check.doesNothing("a halted one is on", x, () -> x.go(5, 5, 0), Check.NONE);
         MicroSteps rest = Check.on(Check.TWO_AXES);
-        for (int far : new int[] {30001, -30001, LEAST, MOST}) {
+        for (int far : new int[] {30001, -30001, Check.LEAST, Check.MOST}) {
             Check.doesNothing("x " + far, rest, () -> rest.go(far, 0, 0), Check.NONE);
             Check.doesNothing("y " + far, rest, () -> rest.go(5, far, 0), Check.NONE);
             Check.doesNothing("nothing goes", rest, () -> rest.go(0, 0, far), Check.NONE);
@@ -75,6 +70,14 @@ public final class EdgesActTest {
             Check.same("left behind " + (k + 1), x.run(1), left[k]);
             Check.same("at", x.now(0, 0), places[k]);
         }
+        x.go(0, 0, 0);
+        Check.same("none yet of the next", x.halt(), 0);
+        x.watch(0, 1);
+        x.go(-900, 0, 0);
+        x.run(9);
+        Check.holds("tripped", x.about(11) > 0);
+        x.go(0, 0, 0);
+        Check.same("none yet behind one that was tripped", x.halt(), 0);
         // GAIN and JERK along the LEAD are 2 * 60 / 30 = 4, 1 * 60 / 30 = 2: 2, 6 .. and 2, 4, 6 down
         MicroSteps two = Check.on("axis x speed 60 gain 30 jerk 10;axis y speed 30 gain 2 jerk 1;");
         two.go(60, 30, 0);
@@ -116,7 +119,7 @@ public final class EdgesActTest {
         short1.undo();
         short1.run(1);
         Check.doesNothing("3 of 1", short1, short1::halt, Check.NONE);
-        MicroSteps slow = Check.on(SLOW);
+        MicroSteps slow = Check.on(Check.SLOW);
         slow.go(3, 0, 0);
         slow.run(2);
         Check.same("1 of 1", slow.halt(), 1);
@@ -165,7 +168,7 @@ public final class EdgesActTest {
         Check.same("none left", x.run(1), 0);
         Check.same("off", x.about(6), 0);
         Check.sentence(23, "NONE, doing nothing, if n can't be, or there are no AXES");
-        for (int n : new int[] {0, 501, -1, LEAST, MOST}) {
+        for (int n : new int[] {0, 501, -1, Check.LEAST, Check.MOST}) {
             Check.doesNothing("run " + n, x, () -> x.run(n), Check.NONE);
         }
         MicroSteps none = Check.on("coil supply 1 loss 1;");
@@ -231,7 +234,7 @@ public final class EdgesActTest {
         x.run(2);
         Check.now("the ROTOR goes behind its AXIS", x, 0, 4, 2, 2, 62);
         // 64 MICROS away in the TICK in which it begins at 63
-        MicroSteps slow = Check.on(SLOW);
+        MicroSteps slow = Check.on(Check.SLOW);
         slow.watch(0, 1024);
         slow.go(63, 0, 0);
         slow.queue(66, 0, 0);
@@ -260,7 +263,7 @@ public final class EdgesActTest {
         MicroSteps x = Check.on(Check.TWO_AXES);
         x.go(30000, 0, 0);
         for (int i = 1; i <= 8; i++) {
-            Check.same("waits", x.queue(i % 2 == 0 ? 30000 : -30000, 30000 * (i % 3 - 1), i % 2 == 0 ? LEAST : MOST), i);
+            Check.same("waits", x.queue(i % 2 == 0 ? 30000 : -30000, 30000 * (i % 3 - 1), i % 2 == 0 ? Check.LEAST : Check.MOST), i);
             Check.same("waits", x.about(10), i);
         }
         Check.sentence(24, "NONE, doing nothing, if none is on, one of x, y, z (of those that there are) can't be, or 8 wait");
@@ -275,7 +278,7 @@ public final class EdgesActTest {
         Check.same("off, one waits", none.about(6) + 2 * none.about(10), 2);
         Check.doesNothing("none is on, one waits", none, () -> none.queue(5, 5, 5), Check.NONE);
         none.run(1);
-        for (int far : new int[] {30001, -30001, LEAST, MOST}) {
+        for (int far : new int[] {30001, -30001, Check.LEAST, Check.MOST}) {
             Check.doesNothing("x " + far, none, () -> none.queue(far, 0, 0), Check.NONE);
             Check.doesNothing("y " + far, none, () -> none.queue(0, far, 0), Check.NONE);
         }
@@ -288,7 +291,7 @@ public final class EdgesActTest {
 
     private static void promise24Begins() {
         Check.sentence(24, "MOVES may wait (8 at the most): one begins, from where AXES are then, in the first TICK in which none is on");
-        MicroSteps x = Check.on(SLOW);
+        MicroSteps x = Check.on(Check.SLOW);
         x.go(3, 0, 0);
         x.queue(5, 0, 0);
         x.queue(4, 0, 0);
@@ -311,7 +314,7 @@ public final class EdgesActTest {
         Check.same("from 0 to 2", told.run(1), 1);
         Check.same("at 1", told.now(0, 0), 1);
         Check.sentence(24, "one by which nothing goes is left out");
-        MicroSteps out = Check.on(SLOW);
+        MicroSteps out = Check.on(Check.SLOW);
         out.go(1, 0, 0);
         for (int i = 0; i < 7; i++) {
             out.queue(1, i, -i);
@@ -339,10 +342,10 @@ public final class EdgesActTest {
         Check.same("0", x.watch(0, 5), 0);
         Check.same("of another", x.axis(1, 7), 0);
         Check.sentence(25, "NONE, doing nothing, if one can't be, or it is that");
-        for (int limit : new int[] {-1, 2049, LEAST, MOST}) {
+        for (int limit : new int[] {-1, 2049, Check.LEAST, Check.MOST}) {
             Check.doesNothing("limit " + limit, x, () -> x.watch(0, limit), Check.NONE);
         }
-        for (int axis : new int[] {-1, 2, 3, LEAST, MOST}) {
+        for (int axis : new int[] {-1, 2, 3, Check.LEAST, Check.MOST}) {
             Check.doesNothing("axis " + axis, x, () -> x.watch(axis, 7), Check.NONE);
         }
         Check.doesNothing("5 is 5", x, () -> x.watch(0, 5), Check.NONE);
@@ -351,7 +354,7 @@ public final class EdgesActTest {
 
     /** In which TICK the move to a place is tripped, and where it ends. */
     private static void trips(int limit, int to, int tick, int end) {
-        MicroSteps x = Check.on(SLOW);
+        MicroSteps x = Check.on(Check.SLOW);
         x.watch(0, limit);
         x.go(to, 0, 0);
         x.queue(0, 0, 0);
@@ -381,7 +384,7 @@ public final class EdgesActTest {
         trips(80, 6, 5, 5);
         trips(2048, 200, 128, 128);
         Check.sentence(25, "it ends there, and none waits any more");
-        MicroSteps x = Check.on(SLOW);
+        MicroSteps x = Check.on(Check.SLOW);
         x.watch(0, 32);
         x.go(50, 0, 0);
         x.queue(5, 0, 0);
@@ -391,7 +394,7 @@ public final class EdgesActTest {
         Check.same("waits", x.about(10), 0);
         Check.same("in", x.about(11), 2);
         // of one that stays beside the MOVE, by a LOAD; and of a halted one
-        MicroSteps beside = Check.on(SLOW + "axis y speed 1 gain 1 jerk 1;motor y hold 1 mass 1 damp 0;");
+        MicroSteps beside = Check.on(Check.SLOW + "axis y speed 1 gain 1 jerk 1;motor y hold 1 mass 1 damp 0;");
         beside.load(1, 5);
         beside.watch(1, 16);
         beside.go(50, 0, 0);
@@ -428,10 +431,10 @@ public final class EdgesActTest {
         Check.same("0", x.load(0, 5), 0);
         Check.same("of another", x.axis(1, 6), 0);
         Check.sentence(26, "Integer.MIN_VALUE, doing nothing, if one can't be, or it is that");
-        for (int v : new int[] {-2001, 2001, LEAST, MOST}) {
+        for (int v : new int[] {-2001, 2001, Check.LEAST, Check.MOST}) {
             Check.doesNothing("load " + v, x, () -> x.load(0, v), Check.CANT);
         }
-        for (int axis : new int[] {-1, 2, 3, LEAST, MOST}) {
+        for (int axis : new int[] {-1, 2, 3, Check.LEAST, Check.MOST}) {
             Check.doesNothing("axis " + axis, x, () -> x.load(axis, 7), Check.CANT);
         }
         Check.doesNothing("5 is 5", x, () -> x.load(0, 5), Check.CANT);
@@ -560,11 +563,13 @@ public final class EdgesActTest {
         String ahead = Check.allOf(x).replaceFirst("^((\\S+ ){8})\\S+", "$1");
         int acts = x.about(8);
         act.accept(x);
+        String done = Check.allOf(x);
         Check.same(name + " is one act", x.about(8), Math.min(10, acts + 1));
         Check.same(name + " undone", x.undo(), Math.min(9, acts));
         String behind = Check.allOf(x).replaceFirst("^((\\S+ ){8})\\S+", "$1");
         Check.holds(name + " undone: " + ahead + " is " + behind, ahead.equals(behind));
         act.accept(x);
+        Check.holds(name + " done again", done.equals(Check.allOf(x)));
     }
 
     private static void promise28Acts() {
@@ -588,6 +593,7 @@ public final class EdgesActTest {
         actIsUndone("begun by ticks, tripped", x, m -> m.run(40));
         Check.holds("tripped", x.about(11) > 0);
         actIsUndone("told to be where rotors are", x, MicroSteps::trueUp);
+        promise28Halt();
         Check.sentence(28, "What is asked ahead (of paths, ROTORS, COILS) does nothing");
         MicroSteps y = Check.on(Check.TWO_AXES);
         y.go(100, 50, 0);
@@ -616,6 +622,34 @@ public final class EdgesActTest {
         Check.doesNothing("ramp", y, () -> y.ramp(10, 2, 1, 0), 6);
     }
 
+    /** What a halt looks at is taken back with the TICKS: the MOVE's speed, GAIN and JERK, and whether it is halted. */
+    private static void promise28Halt() {
+        MicroSteps x = Check.on("axis x speed 60 gain 20 jerk 10;axis y speed 30 gain 2 jerk 1;");
+        x.go(60, 30, 0);
+        x.queue(500, 30, 0);
+        x.run(2);
+        x.run(30);
+        x.undo();
+        // 2, 6 along the LEAD, by GAIN 4 and JERK 2, not by 20 and 10
+        Check.same("halt from 6", x.halt(), 3);
+        Check.same("left", x.run(1), 6);
+        Check.same("at 14", x.now(0, 0), 14);
+        x.undo();
+        x.undo();
+        Check.same("halt once more", x.halt(), 3);
+        x.undo();
+        x.run(1);
+        Check.same("at 8 and 10 more", x.now(0, 0), 18);
+        // GAIN 2 behind the TICKS that are taken back, 30 within them: from 19 by 1, 3, .. 17, 18, 19
+        MicroSteps gains = Check.on("axis x speed 60 gain 30 jerk 1;axis y speed 60 gain 1 jerk 10;");
+        gains.go(1000, 500, 0);
+        gains.queue(0, 500, 0);
+        gains.run(10);
+        gains.run(100);
+        gains.undo();
+        Check.same("halt from 19", gains.halt(), 11);
+    }
+
     private static void promise29() {
         Check.sentence(29, "0: SPEED, 1: GAIN, 2: JERK, 3: HOLD, 4: MASS, 5: DAMP, 6: LOAD, 7: LIMIT");
         MicroSteps x = Check.on("axis a speed 7 gain 6 jerk 5;axis b speed 60 gain 30 jerk 10;"
@@ -629,12 +663,12 @@ public final class EdgesActTest {
             Check.same("b " + what, x.axis(1, what), b[what]);
         }
         Check.sentence(29, "Integer.MIN_VALUE if there is none such, or for another what");
-        for (int axis : new int[] {-1, 2, 3, LEAST, MOST}) {
+        for (int axis : new int[] {-1, 2, 3, Check.LEAST, Check.MOST}) {
             for (int what = -1; what <= 8; what++) {
                 Check.same("axis " + axis, x.axis(axis, what), Check.CANT);
             }
         }
-        for (int what : new int[] {-1, 8, LEAST, MOST}) {
+        for (int what : new int[] {-1, 8, Check.LEAST, Check.MOST}) {
             Check.same("what " + what, x.axis(0, what), Check.CANT);
         }
     }
@@ -646,7 +680,7 @@ public final class EdgesActTest {
         Check.same("1,023", loaded("motor x hold 1 mass 1 damp 0;", 1023).now(0, 4), 0);
         Check.same("-1,023", loaded("motor x hold 1 mass 1 damp 0;", -1023).now(0, 4), 0);
         Check.sentence(30, "STALLED is it from the first TICK on behind which ANGLE (anew) is 1,024 or more, either way");
-        MicroSteps x = Check.on(SLOW);
+        MicroSteps x = Check.on(Check.SLOW);
         x.go(64, 0, 0);
         x.queue(0, 0, 0);
         x.queue(-64, 0, 0);
@@ -664,12 +698,12 @@ public final class EdgesActTest {
         x.run(64);
         Check.same("first since then", x.now(0, 4), 64 + 64 + 64 + 64);
         Check.sentence(30, "Integer.MIN_VALUE likewise");
-        for (int axis : new int[] {-1, 1, 3, LEAST, MOST}) {
+        for (int axis : new int[] {-1, 1, 3, Check.LEAST, Check.MOST}) {
             for (int what = -1; what <= 6; what++) {
                 Check.same("axis " + axis, x.now(axis, what), Check.CANT);
             }
         }
-        for (int what : new int[] {-1, 6, 7, LEAST, MOST}) {
+        for (int what : new int[] {-1, 6, 7, Check.LEAST, Check.MOST}) {
             Check.same("what " + what, x.now(0, what), Check.CANT);
         }
     }
@@ -689,13 +723,13 @@ public final class EdgesActTest {
         slipped(2000, -1952, 2048, 1);
         slipped(-2000, 1952, -2048, 0);
         slipped(-2000, 1951, -2049, -1);
-        MicroSteps far = Check.on(SLOW);
+        MicroSteps far = Check.on(Check.SLOW);
         far.go(400, 0, 0);
         far.run(383);
         Check.same("6,128", far.now(0, 5), 1);
         far.run(1);
         Check.same("6,144", far.now(0, 5), 2);
-        MicroSteps back = Check.on(SLOW);
+        MicroSteps back = Check.on(Check.SLOW);
         back.go(-400, 0, 0);
         back.run(384);
         Check.same("-6,144", back.now(0, 5), -1);
@@ -712,10 +746,10 @@ public final class EdgesActTest {
             Check.same("y " + row[0], x.bands(1, row[0]), row[2]);
         }
         Check.sentence(31, "NONE if one can't be");
-        for (int speed : new int[] {0, 61, -1, LEAST, MOST}) {
+        for (int speed : new int[] {0, 61, -1, Check.LEAST, Check.MOST}) {
             Check.same("speed " + speed, x.bands(0, speed), Check.NONE);
         }
-        for (int axis : new int[] {-1, 2, 3, LEAST, MOST}) {
+        for (int axis : new int[] {-1, 2, 3, Check.LEAST, Check.MOST}) {
             Check.same("axis " + axis, x.bands(axis, 5), Check.NONE);
         }
     }

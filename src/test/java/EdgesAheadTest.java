@@ -1,10 +1,6 @@
 /** The edges that promises 32 to 40 name, one sentence of the document after the other. */
 public final class EdgesAheadTest {
-    private static final int LEAST = Integer.MIN_VALUE;
-    private static final int MOST = Integer.MAX_VALUE;
-    /** A MICRO a TICK, and a rotor that stays: the ANGLE is 16 more each TICK. */
-    private static final String SLOW = "axis x speed 1 gain 1 jerk 1;motor x hold 1 mass 40 damp 20;";
-    private static final String SLOW_TWO = SLOW + "axis y speed 1 gain 1 jerk 1;";
+    private static final String SLOW_TWO = Check.SLOW + "axis y speed 1 gain 1 jerk 1;";
 
     public static void main(String[] args) {
         promise32();
@@ -44,8 +40,8 @@ public final class EdgesAheadTest {
         Check.same("1,999", late.stallIn(0), 1999);
         Check.same("y is another", Check.on(SLOW_TWO).stallIn(1), Check.NONE);
         Check.sentence(32, "NONE if not, or there is none such");
-        Check.same("not", Check.on(SLOW).stallIn(0), Check.NONE);
-        for (int axis : new int[] {-1, 1, 3, LEAST, MOST}) {
+        Check.same("not", Check.on(Check.SLOW).stallIn(0), Check.NONE);
+        for (int axis : new int[] {-1, 1, 3, Check.LEAST, Check.MOST}) {
             Check.same("axis " + axis, x.stallIn(axis), Check.NONE);
         }
         Check.same("no axes", new MicroSteps().stallIn(0), Check.NONE);
@@ -53,7 +49,7 @@ public final class EdgesAheadTest {
 
     private static void promise33() {
         Check.sentence(33, "Behind how many TICKS more (0 .. 2,000) all is STEADY first");
-        MicroSteps x = Check.on(SLOW);
+        MicroSteps x = Check.on(Check.SLOW);
         Check.same("0", x.calmIn(), 0);
         x.go(2001, 0, 0);
         Check.same("2,001 is too late", x.calmIn(), Check.NONE);
@@ -69,7 +65,7 @@ public final class EdgesAheadTest {
 
     private static void promise33Steady() {
         Check.sentence(33, "STEADY: no MOVE is on, none waits, and of each AXIS SWING is 0, and so is (PULL less LOAD) / MASS as it is");
-        MicroSteps move = Check.on(SLOW);
+        MicroSteps move = Check.on(Check.SLOW);
         move.go(3, 0, 0);
         Check.same("a move is on", move.calmIn(), 3);
         move.queue(4, 0, 0);
@@ -108,6 +104,10 @@ public final class EdgesAheadTest {
         MicroSteps second = Check.on(SLOW_TWO);
         second.load(1, 40);
         Check.same("of each", second.calmIn(), Check.NONE);
+        MicroSteps third = Check.on(SLOW_TWO + "axis z speed 1 gain 1 jerk 1;");
+        Check.same("of three", third.calmIn(), 0);
+        third.load(2, 40);
+        Check.same("of the third", third.calmIn(), Check.NONE);
     }
 
     private static void promise34() {
@@ -130,14 +130,14 @@ public final class EdgesAheadTest {
         // PLACE -682, SWING -341: ANGLE is LOAD and 1,023
         Check.same("0 at the least", behind.carries(0, 1), 0);
         // ANGLE 1,008 behind 63 TICKS; a LOAD below 40 pushes by 0
-        MicroSteps slow = Check.on(SLOW);
+        MicroSteps slow = Check.on(Check.SLOW);
         slow.go(100, 0, 0);
         Check.same("63 ticks", slow.carries(0, 63), 39);
         MicroSteps stays = Check.on("axis x speed 1 gain 1 jerk 1;motor x hold 1 mass 999 damp 0;");
         // 998 / 999 is 0; by 1 a TICK more it stalls in 45 TICKS
         Check.same("200 ticks", stays.carries(0, 200), 998);
         Check.sentence(34, "all else as it is");
-        MicroSteps tripped = Check.on(SLOW);
+        MicroSteps tripped = Check.on(Check.SLOW);
         tripped.go(100, 0, 0);
         tripped.watch(0, 500);
         // a LOAD of 40 to 79 swings by 4 a TICK at last: tripped at 514 in TICK 26, 1,022 behind TICK 153
@@ -156,23 +156,23 @@ public final class EdgesAheadTest {
         stalled.run(1);
         Check.holds("not any more so far", Math.abs(stalled.now(0, 3)) < 1024);
         Check.same("STALLED already", stalled.carries(0, 1), Check.NONE);
-        for (int n : new int[] {0, 201, -1, LEAST, MOST}) {
+        for (int n : new int[] {0, 201, -1, Check.LEAST, Check.MOST}) {
             Check.same("n " + n, x.carries(0, n), Check.NONE);
         }
-        for (int axis : new int[] {-1, 1, 3, LEAST, MOST}) {
+        for (int axis : new int[] {-1, 1, 3, Check.LEAST, Check.MOST}) {
             Check.same("axis " + axis, x.carries(axis, 1), Check.NONE);
         }
     }
 
     private static void promise35() {
         Check.sentence(35, "The greatest ANGLE (without sign) of an AXIS in n TICKS more (1 .. 1,000)");
-        MicroSteps x = Check.on(SLOW);
+        MicroSteps x = Check.on(Check.SLOW);
         Check.same("none", x.strain(0, 1000), 0);
         x.go(-2000, 0, 0);
         Check.same("1", x.strain(0, 1), 16);
         Check.same("999", x.strain(0, 999), 15984);
         Check.same("1,000", x.strain(0, 1000), 16000);
-        MicroSteps back = Check.on(SLOW);
+        MicroSteps back = Check.on(Check.SLOW);
         back.go(50, 0, 0);
         back.queue(-40, 0, 0);
         back.run(50);
@@ -180,10 +180,10 @@ public final class EdgesAheadTest {
         back.run(60);
         Check.same("below 0 is greater", back.strain(0, 1000), 40 * 16);
         Check.sentence(35, "NONE if one can't be");
-        for (int n : new int[] {0, 1001, -1, LEAST, MOST}) {
+        for (int n : new int[] {0, 1001, -1, Check.LEAST, Check.MOST}) {
             Check.same("n " + n, x.strain(0, n), Check.NONE);
         }
-        for (int axis : new int[] {-1, 1, 3, LEAST, MOST}) {
+        for (int axis : new int[] {-1, 1, 3, Check.LEAST, Check.MOST}) {
             Check.same("axis " + axis, x.strain(axis, 1), Check.NONE);
         }
     }
@@ -213,7 +213,7 @@ public final class EdgesAheadTest {
         }
         Check.sentence(36, "NONE if one can't be");
         int[][] wrong = {{-1, 1, 1}, {1, 1, 1}, {3, 1, 1}, {0, 1024, 1}, {0, -1024, 1}, {0, 1, 0}, {0, 1, 501},
-            {0, 1, -1}, {LEAST, 1, 1}, {MOST, 1, 1}, {0, LEAST, 1}, {0, MOST, 1}, {0, 1, LEAST}, {0, 1, MOST}};
+            {0, 1, -1}, {Check.LEAST, 1, 1}, {Check.MOST, 1, 1}, {0, Check.LEAST, 1}, {0, Check.MOST, 1}, {0, 1, Check.LEAST}, {0, 1, Check.MOST}};
         for (int[] w : wrong) {
             Check.same("of " + w[0] + " " + w[1] + " " + w[2], x.swings(w[0], w[1], w[2]), Check.NONE);
         }
@@ -238,7 +238,7 @@ public final class EdgesAheadTest {
         Check.same("32", Check.on(Check.ONE_AXIS).settles(0, 32), Check.NONE);
         Check.same("-32", Check.on(Check.ONE_AXIS).settles(0, -32), Check.NONE);
         Check.same("by the LOAD", loaded(Check.LIGHT, 1).settles(0, 0), Check.NONE);
-        int[][] wrong = {{-1, 1}, {1, 1}, {3, 1}, {0, 1024}, {0, -1024}, {LEAST, 1}, {MOST, 1}, {0, LEAST}, {0, MOST}};
+        int[][] wrong = {{-1, 1}, {1, 1}, {3, 1}, {0, 1024}, {0, -1024}, {Check.LEAST, 1}, {Check.MOST, 1}, {0, Check.LEAST}, {0, Check.MOST}};
         for (int[] w : wrong) {
             Check.same("of " + w[0] + " " + w[1], Check.on(Check.LIGHT).settles(w[0], w[1]), Check.NONE);
         }
@@ -246,7 +246,7 @@ public final class EdgesAheadTest {
 
     private static void promise38() {
         Check.sentence(38, "a ROTOR like its own, PLACE and SWING 0, LOAD as it is, whose AXIS begins at 0 and goes w each TICK: the greatest ANGLE without sign (behind a TICK)");
-        MicroSteps x = Check.on(SLOW);
+        MicroSteps x = Check.on(Check.SLOW);
         Check.same("0", x.shake(0, 0, 500), 0);
         Check.same("1 in 1", x.shake(0, 1, 1), 16);
         Check.same("60 in 1", x.shake(0, 60, 1), 960);
@@ -267,7 +267,7 @@ public final class EdgesAheadTest {
         Check.same("the greatest, not the last", light.shake(0, 3, 18), 48 * 9 - 5 * 45);
         Check.sentence(38, "SHAKE (w 0 .. 60, n 1 .. 500); NONE if one can't be");
         int[][] wrong = {{-1, 1, 1}, {1, 1, 1}, {3, 1, 1}, {0, -1, 1}, {0, 61, 1}, {0, 1, 0}, {0, 1, 501}, {0, 1, -1},
-            {LEAST, 1, 1}, {MOST, 1, 1}, {0, LEAST, 1}, {0, MOST, 1}, {0, 1, LEAST}, {0, 1, MOST}};
+            {Check.LEAST, 1, 1}, {Check.MOST, 1, 1}, {0, Check.LEAST, 1}, {0, Check.MOST, 1}, {0, 1, Check.LEAST}, {0, 1, Check.MOST}};
         for (int[] w : wrong) {
             Check.same("of " + w[0] + " " + w[1] + " " + w[2], x.shake(w[0], w[1], w[2]), Check.NONE);
         }
@@ -286,11 +286,15 @@ public final class EdgesAheadTest {
         Check.same("71 and 73", light.worst(0, 1), 10);
         light.load(0, -89);
         Check.same("73 and 71", light.worst(0, 1), 1);
+        // 16 - 16: no ANGLE at all
+        MicroSteps none = loaded("axis x speed 1 gain 1 jerk 1;motor x hold 1 mass 1 damp 0;", -16);
+        Check.same("0 is greatest", none.shake(0, 1, 1), 0);
+        Check.same("0 is greatest", none.worst(0, 1), 1);
         Check.sentence(39, "NONE if one can't be");
-        for (int n : new int[] {0, 101, -1, LEAST, MOST}) {
+        for (int n : new int[] {0, 101, -1, Check.LEAST, Check.MOST}) {
             Check.same("n " + n, light.worst(0, n), Check.NONE);
         }
-        for (int axis : new int[] {-1, 1, 3, LEAST, MOST}) {
+        for (int axis : new int[] {-1, 1, 3, Check.LEAST, Check.MOST}) {
             Check.same("axis " + axis, light.worst(axis, 1), Check.NONE);
         }
     }
@@ -314,10 +318,10 @@ public final class EdgesAheadTest {
         Check.same("either way", loaded(Check.LIGHT, -1040).unsafe(0, 1), 1);
         Check.same("1,023", loaded(Check.LIGHT, -1039).unsafe(0, 1), 0);
         Check.sentence(40, "NONE if one can't be");
-        for (int n : new int[] {0, 101, -1, LEAST, MOST}) {
+        for (int n : new int[] {0, 101, -1, Check.LEAST, Check.MOST}) {
             Check.same("n " + n, x.unsafe(0, n), Check.NONE);
         }
-        for (int axis : new int[] {-1, 1, 3, LEAST, MOST}) {
+        for (int axis : new int[] {-1, 1, 3, Check.LEAST, Check.MOST}) {
             Check.same("axis " + axis, x.unsafe(axis, 1), Check.NONE);
         }
     }

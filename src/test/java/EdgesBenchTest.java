@@ -195,10 +195,23 @@ public final class EdgesBenchTest {
         Check.same("bands", x.about(1), 0);
         Check.same("corrections", x.about(2), 0);
         Check.same("table", x.table(3, 1), 74);
-        Check.same("a motor may be told again", Check.bench(x, AXIS + "motor x hold 1 mass 1 damp 1;fix 3 1;"), 1);
-        Check.same("and again", Check.bench(x, AXIS + "motor x hold 2 mass 2 damp 2;fix 3 2;"), 1);
-        Check.same("and again", Check.bench(x, AXIS + "coil supply 1 loss 1;motor x hold 2 mass 2 damp 2;fix 3 2;"), 1);
-        Check.same("and again", Check.bench(x, AXIS + "coil supply 1 loss 1;motor x hold 2 mass 2 damp 2;fix 3 2;"), 1);
+        for (int round = 0; round < 4; round++) {
+            Check.same("all told again", Check.bench(x, AXIS + "motor x hold 2 mass 2 damp 2;band x 3 4;fix 0 7;fix 64 -7;"
+                + "coil supply 7 loss 7;"), 1);
+            Check.same("bands", x.about(1), 1);
+            Check.same("corrections", x.about(2), 2);
+            if (round > 1) {
+                Check.same("nothing told", Check.bench(x, AXIS), 1);
+                int[] due = {1, 0, 0, 300, 5};
+                for (int what = 0; what < due.length; what++) {
+                    Check.same("about " + what, x.about(what), due[what]);
+                }
+                Check.same("table", x.table(0, 1), 0);
+                Check.same("table", x.table(64, 1), 1000);
+                Check.same("hold", x.axis(0, 3), 1000);
+                Check.same("bands", x.bands(0, 3), 0);
+            }
+        }
     }
 
     private static void promise4AllElseStays() {

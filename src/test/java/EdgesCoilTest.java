@@ -1,8 +1,5 @@
 /** The edges that promises 41 to 45 name, one sentence of the document after the other. */
 public final class EdgesCoilTest {
-    private static final int LEAST = Integer.MIN_VALUE;
-    private static final int MOST = Integer.MAX_VALUE;
-
     public static void main(String[] args) {
         promise41();
         promise41Mode();
@@ -48,8 +45,8 @@ public final class EdgesCoilTest {
         // 100: fast (1,000 + 50) / 10 = 105
         Check.same("0 at the least", quick.coil(1, 8, 2), 0);
         Check.sentence(41, "NONE if one can't be");
-        int[][] wrong = {{-1, 0, 0}, {2001, 0, 0}, {0, -1, 0}, {0, 9, 0}, {0, 0, -1}, {0, 0, 1001}, {LEAST, 0, 0},
-            {MOST, 0, 0}, {0, LEAST, 0}, {0, MOST, 0}, {0, 0, LEAST}, {0, 0, MOST}};
+        int[][] wrong = {{-1, 0, 0}, {2001, 0, 0}, {0, -1, 0}, {0, 9, 0}, {0, 0, -1}, {0, 0, 1001}, {Check.LEAST, 0, 0},
+            {Check.MOST, 0, 0}, {0, Check.LEAST, 0}, {0, Check.MOST, 0}, {0, 0, Check.LEAST}, {0, 0, Check.MOST}};
         for (int[] w : wrong) {
             Check.same("of " + w[0] + " " + w[1] + " " + w[2], turns.coil(w[0], w[1], w[2]), Check.NONE);
         }
@@ -102,8 +99,8 @@ public final class EdgesCoilTest {
             }
         }
         Check.sentence(42, "NONE if one can't be, or for another what");
-        int[][] wrong = {{0, 0, 0}, {51, 0, 0}, {-1, 0, 0}, {1, -1, 0}, {1, 9, 0}, {1, 0, -1}, {1, 0, 3}, {LEAST, 0, 0},
-            {MOST, 0, 0}, {1, LEAST, 0}, {1, MOST, 0}, {1, 0, LEAST}, {1, 0, MOST}};
+        int[][] wrong = {{0, 0, 0}, {51, 0, 0}, {-1, 0, 0}, {1, -1, 0}, {1, 9, 0}, {1, 0, -1}, {1, 0, 3}, {Check.LEAST, 0, 0},
+            {Check.MOST, 0, 0}, {1, Check.LEAST, 0}, {1, Check.MOST, 0}, {1, 0, Check.LEAST}, {1, 0, Check.MOST}};
         for (int[] w : wrong) {
             Check.same("of " + w[0] + " " + w[1] + " " + w[2], x.follows(w[0], w[1], w[2]), Check.NONE);
         }
@@ -122,7 +119,7 @@ public final class EdgesCoilTest {
         Check.same("100 and 0", Check.on("coil supply 1000 loss 1;").ripple(100, 8), 100);
         Check.same("100 and 100", Check.on("coil supply 1000 loss 1;").ripple(100, 0), 0);
         Check.sentence(43, "NONE if one can't be");
-        int[][] wrong = {{-1, 0}, {2001, 0}, {0, -1}, {0, 9}, {LEAST, 0}, {MOST, 0}, {0, LEAST}, {0, MOST}};
+        int[][] wrong = {{-1, 0}, {2001, 0}, {0, -1}, {0, 9}, {Check.LEAST, 0}, {Check.MOST, 0}, {0, Check.LEAST}, {0, Check.MOST}};
         for (int[] w : wrong) {
             Check.same("of " + w[0] + " " + w[1], slow.ripple(w[0], w[1]), Check.NONE);
         }
@@ -140,7 +137,7 @@ public final class EdgesCoilTest {
         Check.same("all alike", Check.on("coil supply 9 loss 1;").mode(1), 0);
         Check.same("all alike", Check.on("coil supply 9 loss 1;").mode(50), 0);
         Check.sentence(44, "NONE if n can't be");
-        for (int n : new int[] {0, 51, -1, LEAST, MOST}) {
+        for (int n : new int[] {0, 51, -1, Check.LEAST, Check.MOST}) {
             Check.same("n " + n, x.mode(n), Check.NONE);
         }
     }
@@ -178,7 +175,7 @@ public final class EdgesCoilTest {
         Check.same("bytes are not undone", x.about(9), 7);
         Check.same("waits", x.about(10), 1);
         Check.sentence(45, "NONE for another what");
-        for (int what : new int[] {-1, 13, 14, LEAST, MOST}) {
+        for (int what : new int[] {-1, 13, 14, Check.LEAST, Check.MOST}) {
             Check.same("about " + what, x.about(what), Check.NONE);
         }
     }

@@ -1,7 +1,5 @@
 /** The edges that promises 11 to 20 name, one sentence of the document after the other. */
 public final class EdgesMoveTest {
-    private static final int LEAST = Integer.MIN_VALUE;
-    private static final int MOST = Integer.MAX_VALUE;
     private static final String THREE = Check.TWO_AXES + "axis z speed 1 gain 1 jerk 1;";
     private static final String FAST = "axis x speed 60 gain 30 jerk 10;";
     /** No RAMP can begin by it: a MICRO a TICK. */
@@ -18,6 +16,7 @@ public final class EdgesMoveTest {
         promise13Bands();
         promise14();
         promise15();
+        promise15Far();
         promise16();
         promise17();
         promise18();
@@ -26,77 +25,55 @@ public final class EdgesMoveTest {
         Check.finish();
     }
 
-    private static void ramp(int v, int a, int j, int... speeds) {
-        MicroSteps x = new MicroSteps();
-        String name = "ramp " + v + " " + a + " " + j;
-        int sum = 0;
-        for (int k = 1; k <= speeds.length; k++) {
-            Check.same(name + " at " + k, x.rampAt(v, a, j, k), speeds[k - 1]);
-            sum += speeds[k - 1];
-        }
-        Check.same(name + " ticks", x.ramp(v, a, j, 0), speeds.length);
-        Check.same(name + " reaches", x.ramp(v, a, j, 1), speeds.length == 0 ? 0 : speeds[speeds.length - 1]);
-        Check.same(name + " micros", x.ramp(v, a, j, 2), sum);
-        Check.same(name + " no more", x.rampAt(v, a, j, speeds.length + 1), Check.NONE);
-    }
-
-    private static int[] by(int step, int n) {
-        int[] all = new int[n];
-        for (int i = 0; i < n; i++) {
-            all[i] = step * (i + 1);
-        }
-        return all;
-    }
-
     private static void promise11() {
         MicroSteps x = new MicroSteps();
         Check.sentence(11, "Of the RAMP to V (0 .. 60) by A (1 .. 30) and J (1 .. 10)");
-        ramp(0, 1, 1);
-        ramp(0, 30, 10);
-        ramp(1, 1, 1, 1);
-        ramp(60, 1, 1, by(1, 60));
-        ramp(60, 30, 10, 10, 30, 50, 60);
-        ramp(60, 1, 10);
+        Check.ramp(0, 1, 1);
+        Check.ramp(0, 30, 10);
+        Check.ramp(1, 1, 1, 1);
+        Check.ramp(60, 1, 1, Check.by(1, 60));
+        Check.ramp(60, 30, 10, 10, 30, 50, 60);
+        Check.ramp(60, 1, 10);
         Check.sentence(11, "what 0: how many TICKS, 1: the speed that it reaches, 2: MICROS together");
         Check.same("ticks", x.ramp(60, 30, 10, 0), 4);
         Check.same("speed", x.ramp(60, 30, 10, 1), 60);
         Check.same("micros", x.ramp(60, 30, 10, 2), 150);
         Check.sentence(11, "NONE if one can't be, or for another what");
-        int[][] wrong = {{-1, 1, 1}, {61, 1, 1}, {1, 0, 1}, {1, 31, 1}, {1, 1, 0}, {1, 1, 11}, {LEAST, 1, 1},
-            {MOST, 1, 1}, {1, LEAST, 1}, {1, MOST, 1}, {1, 1, LEAST}, {1, 1, MOST}, {1, -1, 1}, {1, 1, -1}};
+        int[][] wrong = {{-1, 1, 1}, {61, 1, 1}, {1, 0, 1}, {1, 31, 1}, {1, 1, 0}, {1, 1, 11}, {Check.LEAST, 1, 1},
+            {Check.MOST, 1, 1}, {1, Check.LEAST, 1}, {1, Check.MOST, 1}, {1, 1, Check.LEAST}, {1, 1, Check.MOST}, {1, -1, 1}, {1, 1, -1}};
         for (int[] w : wrong) {
             for (int what = 0; what < 3; what++) {
                 Check.same("of " + w[0] + " " + w[1] + " " + w[2], x.ramp(w[0], w[1], w[2], what), Check.NONE);
             }
         }
-        for (int what : new int[] {-1, 3, LEAST, MOST}) {
+        for (int what : new int[] {-1, 3, Check.LEAST, Check.MOST}) {
             Check.same("what " + what, x.ramp(10, 2, 1, what), Check.NONE);
         }
     }
 
     private static void promise11Ramp() {
         Check.sentence(11, "speed v and gain g are 0 at first; each TICK g becomes the greatest of g + J, g, g - J that is no more than A, above 0");
-        ramp(60, 10, 10, by(10, 6));
-        ramp(60, 19, 10, by(10, 6));
-        ramp(60, 20, 10, 10, 30, 50, 60);
-        ramp(60, 9, 10);
-        ramp(60, 3, 2, by(2, 30));
-        ramp(12, 4, 2, 2, 6, 10, 12);
+        Check.ramp(60, 10, 10, Check.by(10, 6));
+        Check.ramp(60, 19, 10, Check.by(10, 6));
+        Check.ramp(60, 20, 10, 10, 30, 50, 60);
+        Check.ramp(60, 9, 10);
+        Check.ramp(60, 3, 2, Check.by(2, 30));
+        Check.ramp(12, 4, 2, 2, 6, 10, 12);
         Check.sentence(11, "by which v + g + (g - J) + (g - 2 J) .. (those above 0) is no more than V");
-        ramp(3, 2, 1, 1, 2, 3);
-        ramp(4, 2, 1, 1, 3, 4);
-        ramp(8, 3, 1, 1, 3, 5, 7, 8);
-        ramp(9, 3, 1, 1, 3, 6, 8, 9);
-        ramp(5, 30, 3, 3);
-        ramp(6, 30, 3, 3, 6);
-        ramp(11, 30, 3, 3, 6, 9);
-        ramp(12, 30, 3, 3, 9, 12);
+        Check.ramp(3, 2, 1, 1, 2, 3);
+        Check.ramp(4, 2, 1, 1, 3, 4);
+        Check.ramp(8, 3, 1, 1, 3, 5, 7, 8);
+        Check.ramp(9, 3, 1, 1, 3, 6, 8, 9);
+        Check.ramp(5, 30, 3, 3);
+        Check.ramp(6, 30, 3, 3, 6);
+        Check.ramp(11, 30, 3, 3, 6, 9);
+        Check.ramp(12, 30, 3, 3, 9, 12);
         Check.sentence(11, "this till none is such");
-        ramp(2, 30, 3);
-        ramp(3, 30, 3, 3);
-        ramp(59, 30, 10, 10, 30, 40, 50);
+        Check.ramp(2, 30, 3);
+        Check.ramp(3, 30, 3, 3);
+        Check.ramp(59, 30, 10, 10, 30, 40, 50);
         Check.sentence(11, "Its SPEEDS are v behind each of its TICKS");
-        ramp(10, 2, 1, 1, 3, 5, 7, 9, 10);
+        Check.ramp(10, 2, 1, 1, 3, 5, 7, 9, 10);
     }
 
     private static void promise12() {
@@ -106,26 +83,16 @@ public final class EdgesMoveTest {
         Check.same("6", x.rampAt(10, 2, 1, 6), 10);
         Check.same("60", x.rampAt(60, 1, 1, 60), 60);
         Check.sentence(12, "NONE likewise");
-        for (int k : new int[] {0, 7, -1, 61, LEAST, MOST}) {
+        for (int k : new int[] {0, 7, -1, 61, Check.LEAST, Check.MOST}) {
             Check.same("k " + k, x.rampAt(10, 2, 1, k), Check.NONE);
         }
         Check.same("61 of 60", x.rampAt(60, 1, 1, 61), Check.NONE);
         Check.same("1 of none", x.rampAt(0, 1, 1, 1), Check.NONE);
         Check.same("1 of none", x.rampAt(60, 9, 10, 1), Check.NONE);
-        int[][] wrong = {{-1, 1, 1}, {61, 1, 1}, {1, 0, 1}, {1, 31, 1}, {1, 1, 0}, {1, 1, 11}, {MOST, MOST, MOST}};
+        int[][] wrong = {{-1, 1, 1}, {61, 1, 1}, {1, 0, 1}, {1, 31, 1}, {1, 1, 0}, {1, 1, 11}, {Check.MOST, Check.MOST, Check.MOST}};
         for (int[] w : wrong) {
             Check.same("of " + w[0] + " " + w[1] + " " + w[2], x.rampAt(w[0], w[1], w[2], 1), Check.NONE);
         }
-    }
-
-    private static void path(String name, MicroSteps x, int[] to, int... due) {
-        for (int what = 0; what < due.length; what++) {
-            Check.same(name + ", what " + what, x.path(to[0], to[1], to[2], what), due[what]);
-        }
-    }
-
-    private static int[] to(int x, int y, int z) {
-        return new int[] {x, y, z};
     }
 
     private static void promise13() {
@@ -133,7 +100,7 @@ public final class EdgesMoveTest {
         MicroSteps one = Check.on(Check.ONE_AXIS);
         Check.same("30,000", one.path(30000, 0, 0, 2), 30000);
         Check.same("-30,000", one.path(-30000, 0, 0, 2), 30000);
-        Check.same("others are free", one.path(5, LEAST, MOST, 2), 5);
+        Check.same("others are free", one.path(5, Check.LEAST, Check.MOST, 2), 5);
         MicroSteps two = Check.on(Check.TWO_AXES);
         Check.same("30,000", two.path(0, 30000, 30001, 2), 30000);
         Check.same("-30,000", two.path(0, -30000, -30001, 2), 30000);
@@ -141,7 +108,7 @@ public final class EdgesMoveTest {
         Check.same("30,000", three.path(0, 0, 30000, 2), 30000);
         Check.same("-30,000", three.path(0, 0, -30000, 2), 30000);
         Check.sentence(13, "NONE if one can't be, nothing goes, or for another what");
-        for (int far : new int[] {30001, -30001, LEAST, MOST}) {
+        for (int far : new int[] {30001, -30001, Check.LEAST, Check.MOST}) {
             for (int what = 0; what <= 6; what++) {
                 Check.same("x " + far, one.path(far, 0, 0, what), Check.NONE);
                 Check.same("y " + far, two.path(5, far, 0, what), Check.NONE);
@@ -153,7 +120,7 @@ public final class EdgesMoveTest {
         three.run(100);
         Check.same("nothing goes", three.path(7, -3, 1, 2), Check.NONE);
         Check.same("one goes", three.path(7, -3, 2, 2), 1);
-        for (int what : new int[] {-1, 7, 8, LEAST, MOST}) {
+        for (int what : new int[] {-1, 7, 8, Check.LEAST, Check.MOST}) {
             Check.same("what " + what, one.path(5, 0, 0, what), Check.NONE);
         }
     }
@@ -161,11 +128,11 @@ public final class EdgesMoveTest {
     private static void promise13Move() {
         MicroSteps x = Check.on(THREE);
         Check.sentence(13, "LEAD is the AXIS that goes farthest (of like ones the first), WAY how far that is");
-        path("all alike", x, to(9, -9, 9), 9, 0, 9, 1);
-        path("two alike", x, to(8, 9, -9), 9, 1, 9, 1);
-        path("the last", x, to(-8, 8, 9), 9, 2, 9, 1);
-        path("one more", x, to(10, 9, 0), 6, 0, 10, 4);
-        path("one less", x, to(9, 10, 0), 6, 1, 10, 4);
+        Check.path("all alike", x, Check.to(9, -9, 9), 9, 0, 9, 1);
+        Check.path("two alike", x, Check.to(8, 9, -9), 9, 1, 9, 1);
+        Check.path("the last", x, Check.to(-8, 8, 9), 9, 2, 9, 1);
+        Check.path("one more", x, Check.to(10, 9, 0), 6, 0, 10, 4);
+        Check.path("one less", x, Check.to(9, 10, 0), 6, 1, 10, 4);
         Check.sentence(13, "SPEED * WAY / d, GAIN * WAY / d, JERK * WAY / d (d without sign), of those that go, the least of each");
         Check.same("4 * 100 / 40", x.path(100, 40, 0, 3), 10);
         Check.same("4 * 100 / 41", x.path(100, -41, 0, 3), 9);
@@ -176,12 +143,12 @@ public final class EdgesMoveTest {
         Check.same("z stays", x.path(100, 0, 0, 3), 10);
         // GAIN 1 * 90 / 46 = 1, 1 * 90 / 45 = 2: a RAMP of 1, 3, 5 .. or of 1, 2, 3 ..
         MicroSteps gains = Check.on("axis x speed 9 gain 2 jerk 1;axis y speed 60 gain 1 jerk 9;");
-        path("gain 2", gains, to(90, 45, 0), gains.ramp(9, 2, 1, 0) * 2 + 3, 0, 90, 9, 9, 6);
-        path("gain 1", gains, to(90, 46, 0), 18, 0, 90, 9, 9, 9);
+        Check.path("gain 2", gains, Check.to(90, 45, 0), gains.ramp(9, 2, 1, 0) * 2 + 3, 0, 90, 9, 9, 6);
+        Check.path("gain 1", gains, Check.to(90, 46, 0), 18, 0, 90, 9, 9, 9);
         // JERK 1 * 90 / 46 = 1, 1 * 90 / 45 = 2: 1, 3, 5, 7, 8, 9 or 2, 4, 6, 8
         MicroSteps jerks = Check.on("axis x speed 9 gain 2 jerk 2;axis y speed 60 gain 30 jerk 1;");
-        path("jerk 2", jerks, to(90, 45, 0), 8 + 7, 0, 90, 9, 8, 4);
-        path("jerk 1", jerks, to(90, 46, 0), 12 + 3, 0, 90, 9, 9, 6);
+        Check.path("jerk 2", jerks, Check.to(90, 45, 0), 8 + 7, 0, 90, 9, 8, 4);
+        Check.path("jerk 1", jerks, Check.to(90, 46, 0), 12 + 3, 0, 90, 9, 9, 6);
         Check.sentence(13, "Behind s MICROS of the LEAD another AXIS is gone by (2 * s * d + WAY) / (2 * WAY)");
         // one by one along z: half way is gone, less is not
         MicroSteps z = Check.on(THREE);
@@ -205,25 +172,25 @@ public final class EdgesMoveTest {
     private static void promise13Top() {
         MicroSteps x = Check.on(Check.ONE_AXIS);
         Check.sentence(13, "the RAMP's SPEEDS together, twice, are no more than WAY");
-        path("twice 35", x, to(70, 0, 0), 12, 0, 70, 10, 10, 6, 0);
+        Check.path("twice 35", x, Check.to(70, 0, 0), 12, 0, 70, 10, 10, 6, 0);
         // 1, 3, 5, 7, 8, 9 are 33
-        path("one less", x, to(69, 0, 0), 13, 0, 69, 10, 9, 6, 0);
-        path("twice 33", x, to(66, 0, 0), 12, 0, 66, 10, 9, 6, 0);
-        path("twice 1", x, to(2, 0, 0), 2, 0, 2, 10, 1, 1, 0);
-        path("once 1", x, to(1, 0, 0), 1, 0, 1, 10, 0, 0, 0);
+        Check.path("one less", x, Check.to(69, 0, 0), 13, 0, 69, 10, 9, 6, 0);
+        Check.path("twice 33", x, Check.to(66, 0, 0), 12, 0, 66, 10, 9, 6, 0);
+        Check.path("twice 1", x, Check.to(2, 0, 0), 2, 0, 2, 10, 1, 1, 0);
+        Check.path("once 1", x, Check.to(1, 0, 0), 1, 0, 1, 10, 0, 0, 0);
         Check.sentence(13, "TOP: the greatest V (0 .. that SPEED)");
-        path("10", x, to(30000, 0, 0), 12 + 2993, 0, 30000, 10, 10, 6, 0);
-        path("1", Check.on("axis x speed 1 gain 1 jerk 1;"), to(30, 0, 0), 30, 0, 30, 1, 1, 1, 0);
-        path("60", Check.on(FAST), to(300, 0, 0), 8, 0, 300, 60, 60, 4, 0);
-        path("0", Check.on(BARE), to(30, 0, 0), 30, 0, 30, 10, 0, 0, 0);
+        Check.path("10", x, Check.to(30000, 0, 0), 12 + 2993, 0, 30000, 10, 10, 6, 0);
+        Check.path("1", Check.on("axis x speed 1 gain 1 jerk 1;"), Check.to(30, 0, 0), 30, 0, 30, 1, 1, 1, 0);
+        Check.path("60", Check.on(FAST), Check.to(300, 0, 0), 8, 0, 300, 60, 60, 4, 0);
+        Check.path("0", Check.on(BARE), Check.to(30, 0, 0), 30, 0, 30, 10, 0, 0, 0);
         Check.sentence(13, "of which the speed that it reaches lies in no BAND of the LEAD (0 lies in none)");
-        path("10 is barred", Check.on(Check.ONE_AXIS + "band x 10 10;"), to(70, 0, 0), 12 + 1, 0, 70, 10, 9, 6, 0);
-        path("11 is barred", Check.on(Check.ONE_AXIS + "band x 11 60;"), to(70, 0, 0), 12, 0, 70, 10, 10, 6, 0);
-        path("9 is crossed", Check.on(Check.ONE_AXIS + "band x 9 9;"), to(70, 0, 0), 12, 0, 70, 10, 10, 6, 2);
-        path("all are barred", Check.on(Check.ONE_AXIS + "band x 1 60;"), to(7, 0, 0), 7, 0, 7, 10, 0, 0, 7);
-        path("all but 1", Check.on(Check.ONE_AXIS + "band x 2 60;"), to(7, 0, 0), 7, 0, 7, 10, 1, 1, 0);
-        path("of another", Check.on(Check.TWO_AXES + "band y 1 60;"), to(70, 0, 0), 12, 0, 70, 10, 10, 6, 0);
-        path("of the lead", Check.on(Check.TWO_AXES + "band y 4 4;"), to(0, 70, 0), 6 + 20, 1, 70, 4, 3, 3, 0);
+        Check.path("10 is barred", Check.on(Check.ONE_AXIS + "band x 10 10;"), Check.to(70, 0, 0), 12 + 1, 0, 70, 10, 9, 6, 0);
+        Check.path("11 is barred", Check.on(Check.ONE_AXIS + "band x 11 60;"), Check.to(70, 0, 0), 12, 0, 70, 10, 10, 6, 0);
+        Check.path("9 is crossed", Check.on(Check.ONE_AXIS + "band x 9 9;"), Check.to(70, 0, 0), 12, 0, 70, 10, 10, 6, 2);
+        Check.path("all are barred", Check.on(Check.ONE_AXIS + "band x 1 60;"), Check.to(7, 0, 0), 7, 0, 7, 10, 0, 0, 7);
+        Check.path("all but 1", Check.on(Check.ONE_AXIS + "band x 2 60;"), Check.to(7, 0, 0), 7, 0, 7, 10, 1, 1, 0);
+        Check.path("of another", Check.on(Check.TWO_AXES + "band y 1 60;"), Check.to(70, 0, 0), 12, 0, 70, 10, 10, 6, 0);
+        Check.path("of the lead", Check.on(Check.TWO_AXES + "band y 4 4;"), Check.to(0, 70, 0), 6 + 20, 1, 70, 4, 3, 3, 0);
     }
 
     private static void promise13Rest() {
@@ -236,7 +203,7 @@ public final class EdgesMoveTest {
         Check.same("20", x.path(90, 0, 0, 0), 14);
         Check.same("21", x.path(91, 0, 0, 0), 15);
         Check.sentence(13, "(1 at least)");
-        path("one by one", Check.on(BARE), to(7, 0, 0), 7, 0, 7, 10, 0, 0, 0);
+        Check.path("one by one", Check.on(BARE), Check.to(7, 0, 0), 7, 0, 7, 10, 0, 0, 0);
         Check.sentence(13, "behind k of them rest * k / n is gone");
         // 11 in two: 5, 6; 21 in three: 7, 14; 25 in three: 8, 16
         Check.same("5 of 11", x.pathAt(81, 0, 0, 0, 7), 40);
@@ -262,6 +229,10 @@ public final class EdgesMoveTest {
             Check.same("of 95, " + row[0] + " to " + row[1], x.path(95, 0, 0, 6), row[2]);
             Check.same("back", x.path(-95, 0, 0, 6), row[2]);
         }
+        // 1, 2, 3, 2, 3, 2, 1: the rest of one TICK counts too
+        MicroSteps one = Check.on("axis x speed 3 gain 1 jerk 1;band x 2 2;");
+        Check.same("a rest of one TICK", one.path(14, 0, 0, 6), 3);
+        Check.same("no rest", one.path(12, 0, 0, 6), 2);
         MicroSteps twice = Check.on(Check.ONE_AXIS + "band x 8 9;band x 8 9;band x 9 9;");
         Check.same("in two bands counts once", twice.path(95, 0, 0, 6), 5);
         MicroSteps other = Check.on(Check.TWO_AXES + "band y 1 60;");
@@ -275,14 +246,14 @@ public final class EdgesMoveTest {
         Check.same("12", x.pathAt(70, 7, 0, 0, 12), 70);
         Check.same("12", x.pathAt(70, 7, 0, 1, 12), 7);
         Check.sentence(14, "Integer.MIN_VALUE likewise, or if there is none such");
-        for (int k : new int[] {-1, 13, LEAST, MOST}) {
+        for (int k : new int[] {-1, 13, Check.LEAST, Check.MOST}) {
             Check.same("k " + k, x.pathAt(70, 7, 0, 0, k), Check.CANT);
         }
-        for (int axis : new int[] {-1, 2, 3, LEAST, MOST}) {
+        for (int axis : new int[] {-1, 2, 3, Check.LEAST, Check.MOST}) {
             Check.same("axis " + axis, x.pathAt(70, 7, 0, axis, 0), Check.CANT);
         }
         Check.same("nothing goes", x.pathAt(0, 0, 5, 0, 0), Check.CANT);
-        for (int far : new int[] {30001, -30001, LEAST, MOST}) {
+        for (int far : new int[] {30001, -30001, Check.LEAST, Check.MOST}) {
             Check.same("x " + far, x.pathAt(far, 7, 0, 0, 0), Check.CANT);
             Check.same("y " + far, x.pathAt(7, far, 0, 0, 0), Check.CANT);
         }
@@ -303,6 +274,12 @@ public final class EdgesMoveTest {
         for (int k = 1; k <= due.length; k++) {
             Check.same("micro " + k, x.stamp(70, 0, 0, 0, k), due[k - 1]);
         }
+        // 10 in the first, 30 in the second
+        MicroSteps fast = Check.on(FAST);
+        int[][] early = {{1, 100}, {2, 200}, {9, 900}, {10, 1000}, {11, 1033}, {39, 1966}, {40, 2000}};
+        for (int[] row : early) {
+            Check.same("fast, micro " + row[0], fast.stamp(300, 0, 0, 0, row[0]), row[1]);
+        }
         // the last TICKS: 5, 3, 1
         Check.same("first of 3", x.stamp(70, 0, 0, 0, 67), 10333);
         Check.same("last of 5", x.stamp(70, 0, 0, 0, 66), 10000);
@@ -311,24 +288,45 @@ public final class EdgesMoveTest {
         Check.same("its first", x.stamp(70, 7, 0, 1, 1), due[4]);
         Check.same("its second", x.stamp(70, -7, 0, 1, 2), due[14]);
         Check.same("its last", x.stamp(70, 7, 0, 1, 7), x.stamp(70, 7, 0, 0, 65));
+        // one by one along z: 1 of 3 is gone by the second, 1 of 2 by the first, 2 of 5 by the second and the fourth
+        MicroSteps z = Check.on(THREE);
+        Check.same("1 of 3", z.stamp(1, 0, 3, 0, 1), 2000);
+        Check.same("1 of 2", z.stamp(0, 1, 2, 1, 1), 1000);
+        Check.same("2 of 5", z.stamp(-2, 0, 5, 0, 1), 2000);
+        Check.same("2 of 5", z.stamp(-2, 0, 5, 0, 2), 4000);
         // as far as the LEAD: 1, 2, then 3 in two TICKS, 2, 1
         Check.same("alike", x.stamp(9, 9, 0, 1, 2), 1500);
         Check.same("alike", x.stamp(9, 9, 0, 1, 9), 6000);
         Check.sentence(15, "NONE likewise, or if there is none such");
-        for (int k : new int[] {0, 71, -1, LEAST, MOST}) {
+        for (int k : new int[] {0, 71, -1, Check.LEAST, Check.MOST}) {
             Check.same("k " + k, x.stamp(70, 7, 0, 0, k), Check.NONE);
         }
         Check.same("8 of 7", x.stamp(70, 7, 0, 1, 8), Check.NONE);
         Check.same("0 of 7", x.stamp(70, 7, 0, 1, 0), Check.NONE);
         Check.same("1 of none", x.stamp(70, 0, 0, 1, 1), Check.NONE);
         Check.same("0 of none", x.stamp(70, 0, 0, 1, 0), Check.NONE);
-        for (int axis : new int[] {-1, 2, 3, LEAST, MOST}) {
+        for (int axis : new int[] {-1, 2, 3, Check.LEAST, Check.MOST}) {
             Check.same("axis " + axis, x.stamp(70, 7, 0, axis, 1), Check.NONE);
         }
         Check.same("nothing goes", x.stamp(0, 0, 5, 0, 1), Check.NONE);
-        for (int far : new int[] {30001, -30001, LEAST, MOST}) {
+        for (int far : new int[] {30001, -30001, Check.LEAST, Check.MOST}) {
             Check.same("x " + far, x.stamp(far, 7, 0, 0, 1), Check.NONE);
             Check.same("y " + far, x.stamp(7, far, 0, 0, 1), Check.NONE);
+        }
+    }
+
+    private static void promise15Far() {
+        Check.sentence(15, "CLOCK: 1,000 counts a TICK");
+        MicroSteps x = Check.on("axis x speed 1 gain 1 jerk 1;");
+        x.go(-30000, 0, 0);
+        for (int i = 0; i < 60; i++) {
+            x.run(500);
+        }
+        Check.same("the longest way", x.path(30000, 0, 0, 0), 60000);
+        Check.same("the last micro", x.stamp(30000, 0, 0, 0, 60000), 60000000);
+        Check.same("beyond", x.stamp(30000, 0, 0, 0, 60001), Check.NONE);
+        for (int k = 1; k <= 60000; k += 13) {
+            Check.same("micro " + k, x.stamp(30000, 0, 0, 0, k), 1000 * k);
         }
     }
 
@@ -354,11 +352,11 @@ public final class EdgesMoveTest {
         // 10, 1, 10: 10, -9, 9, -10: 19
         Check.same("10 to -9", fast.peak(21, 0, 0, 1), 19);
         Check.sentence(16, "NONE likewise, or for another what");
-        for (int what : new int[] {-1, 2, LEAST, MOST}) {
+        for (int what : new int[] {-1, 2, Check.LEAST, Check.MOST}) {
             Check.same("what " + what, fast.peak(21, 0, 0, what), Check.NONE);
         }
         Check.same("nothing goes", fast.peak(0, 0, 0, 0), Check.NONE);
-        for (int far : new int[] {30001, -30001, LEAST, MOST}) {
+        for (int far : new int[] {30001, -30001, Check.LEAST, Check.MOST}) {
             Check.same("x " + far, fast.peak(far, 0, 0, 0), Check.NONE);
             Check.same("x " + far, fast.peak(far, 0, 0, 1), Check.NONE);
         }
@@ -373,7 +371,9 @@ public final class EdgesMoveTest {
         // 8: 1, 3, 5, 7, 8 are 24 twice, 8 in one; 7: 1, 3, 5, 6, 7 are 22 twice, 12 in two
         Check.same("y: 8", x.needed(1, 56, 11), 8);
         Check.same("y: 7", x.needed(1, 56, 12), 7);
-        Check.same("y: none above 8", x.needed(1, 56, 10), Check.NONE);
+        // 10 would take 12 TICKS; 8 takes 10, and 22 in three
+        Check.same("y: 8", x.needed(1, 70, 13), 8);
+        Check.same("y: none above 8", x.needed(1, 70, 12), Check.NONE);
         Check.same("1", x.needed(0, 300, 300), 1);
         Check.sentence(17, "by a way (1 .. 30,000) takes so many TICKS (1 .. 60,000) at the most");
         Check.same("1 in 1", x.needed(0, 1, 1), 1);
@@ -387,7 +387,7 @@ public final class EdgesMoveTest {
         Check.same("by none", x.needed(0, 300, 7), Check.NONE);
         Check.same("by none", x.needed(0, 2, 1), Check.NONE);
         int[][] wrong = {{-1, 1, 1}, {2, 1, 1}, {0, 0, 1}, {0, 30001, 60000}, {0, 1, 0}, {0, 1, 60001}, {0, -1, 1},
-            {0, 1, -1}, {LEAST, 1, 1}, {MOST, 1, 1}, {0, LEAST, 1}, {0, MOST, 1}, {0, 1, LEAST}, {0, 1, MOST}};
+            {0, 1, -1}, {Check.LEAST, 1, 1}, {Check.MOST, 1, 1}, {0, Check.LEAST, 1}, {0, Check.MOST, 1}, {0, 1, Check.LEAST}, {0, 1, Check.MOST}};
         for (int[] w : wrong) {
             Check.same("of " + w[0] + " " + w[1] + " " + w[2], x.needed(w[0], w[1], w[2]), Check.NONE);
         }
@@ -408,11 +408,11 @@ public final class EdgesMoveTest {
         // 1, 3, 4, then 1 in one TICK, 4, 3, 1
         Check.same("not of the rest alone", x.most(17, 0, 0, 0), 4);
         Check.sentence(18, "NONE likewise, or if there is no such AXIS");
-        for (int axis : new int[] {-1, 3, LEAST, MOST}) {
+        for (int axis : new int[] {-1, 3, Check.LEAST, Check.MOST}) {
             Check.same("axis " + axis, x.most(5, 5, 5, axis), Check.NONE);
         }
         Check.same("nothing goes", x.most(0, 0, 0, 0), Check.NONE);
-        for (int far : new int[] {30001, -30001, LEAST, MOST}) {
+        for (int far : new int[] {30001, -30001, Check.LEAST, Check.MOST}) {
             Check.same("x " + far, x.most(far, 0, 0, 0), Check.NONE);
             Check.same("z " + far, x.most(5, 0, far, 0), Check.NONE);
         }
@@ -437,22 +437,23 @@ public final class EdgesMoveTest {
         Check.same("corrected", fixed.drives(1, 0, 0, 0, 0, 1), 46);
         // y stays at 0: toward 0, nothing is off
         MicroSteps two = Check.on(Check.TWO_AXES);
+        Check.same("one that stays", two.drives(9, 0, 0, 1, 0, 0), 0);
         Check.same("one that stays", two.drives(9, 0, 0, 1, 0, 1), 0);
         Check.sentence(19, "what 0: how far it is off at most, 1: all together");
         Check.same("195 in the eighth", x.drives(9, 0, 0, 0, 0, 0), 195);
         Check.same("176 in the first", x.drives(7, 0, 0, 0, 0, 0), 176);
         Check.sentence(19, "NONE likewise, if there is no such AXIS, m can't be, or for another what");
-        for (int axis : new int[] {-1, 1, 3, LEAST, MOST}) {
+        for (int axis : new int[] {-1, 1, 3, Check.LEAST, Check.MOST}) {
             Check.same("axis " + axis, x.drives(9, 0, 0, axis, 0, 0), Check.NONE);
         }
-        for (int m : new int[] {-1, 9, LEAST, MOST}) {
+        for (int m : new int[] {-1, 9, Check.LEAST, Check.MOST}) {
             Check.same("mode " + m, x.drives(9, 0, 0, 0, m, 0), Check.NONE);
         }
-        for (int what : new int[] {-1, 2, LEAST, MOST}) {
+        for (int what : new int[] {-1, 2, Check.LEAST, Check.MOST}) {
             Check.same("what " + what, x.drives(9, 0, 0, 0, 0, what), Check.NONE);
         }
         Check.same("nothing goes", x.drives(0, 0, 0, 0, 0, 0), Check.NONE);
-        for (int far : new int[] {30001, -30001, LEAST, MOST}) {
+        for (int far : new int[] {30001, -30001, Check.LEAST, Check.MOST}) {
             Check.same("x " + far, x.drives(far, 0, 0, 0, 0, 0), Check.NONE);
         }
     }
@@ -462,8 +463,8 @@ public final class EdgesMoveTest {
         Check.sentence(20, "The SPEED (1 .. 60) by which a MOVE of an AXIS alone (as needed()) by a way takes the fewest TICKS");
         Check.same("60", x.quickest(0, 300, 0), 60);
         Check.same("8", x.quickest(0, 300, 1), 8);
-        Check.same("y: 8", x.quickest(1, 56, 0), 8);
-        Check.same("y: 11", x.quickest(1, 56, 1), 11);
+        Check.same("y: 8", x.quickest(1, 70, 0), 8);
+        Check.same("y: 13", x.quickest(1, 70, 1), 13);
         Check.same("1", x.quickest(0, 1, 0), 1);
         Check.same("1", x.quickest(0, 1, 1), 1);
         // 150 twice, 29,700 by 60
@@ -475,7 +476,7 @@ public final class EdgesMoveTest {
         Check.same("2", x.quickest(0, 20, 1), 2);
         Check.sentence(20, "NONE if one can't be, or for another what");
         int[][] wrong = {{-1, 1, 0}, {2, 1, 0}, {0, 0, 0}, {0, 30001, 0}, {0, 1, -1}, {0, 1, 2}, {0, -1, 0},
-            {LEAST, 1, 0}, {MOST, 1, 0}, {0, LEAST, 0}, {0, MOST, 0}, {0, 1, LEAST}, {0, 1, MOST}};
+            {Check.LEAST, 1, 0}, {Check.MOST, 1, 0}, {0, Check.LEAST, 0}, {0, Check.MOST, 0}, {0, 1, Check.LEAST}, {0, 1, Check.MOST}};
         for (int[] w : wrong) {
             Check.same("of " + w[0] + " " + w[1] + " " + w[2], x.quickest(w[0], w[1], w[2]), Check.NONE);
         }

@@ -1,8 +1,5 @@
 /** The edges that promises 6 to 10 name, one sentence of the document after the other. */
 public final class EdgesTableTest {
-    private static final int LEAST = Integer.MIN_VALUE;
-    private static final int MOST = Integer.MAX_VALUE;
-
     public static void main(String[] args) {
         promise6();
         promise7();
@@ -21,11 +18,11 @@ public final class EdgesTableTest {
             Check.same("table with " + row[0], x.table(row[0], 1), row[2]);
         }
         Check.sentence(6, "Integer.MIN_VALUE for others");
-        for (int q : new int[] {-1, 65, LEAST, MOST}) {
+        for (int q : new int[] {-1, 65, Check.LEAST, Check.MOST}) {
             Check.same("q " + q, x.table(q, 0), Check.CANT);
             Check.same("q " + q, x.table(q, 1), Check.CANT);
         }
-        for (int what : new int[] {-1, 2, LEAST, MOST}) {
+        for (int what : new int[] {-1, 2, Check.LEAST, Check.MOST}) {
             Check.same("what " + what, x.table(0, what), Check.CANT);
             Check.same("what " + what, x.table(64, what), Check.CANT);
         }
@@ -49,13 +46,13 @@ public final class EdgesTableTest {
             Check.same("coil 1 of " + places[i], x.current(places[i], 1), due[i]);
             Check.same("coil 0 of " + (places[i] - 64), x.current(places[i] - 64, 0), due[i]);
         }
-        Check.same("MAX_VALUE: 255", x.current(MOST, 1), -25);
-        Check.same("MAX_VALUE: 255 + 64", x.current(MOST, 0), 900);
-        Check.same("MAX_VALUE - 63: 192", x.current(MOST - 63, 1), -1020);
-        Check.same("MAX_VALUE - 63: 256", x.current(MOST - 63, 0), 7);
-        Check.same("MIN_VALUE: 0", x.current(LEAST, 1), 7);
-        Check.same("MIN_VALUE: 64", x.current(LEAST, 0), 1020);
-        Check.same("MIN_VALUE + 255", x.current(LEAST + 255, 1), -25);
+        Check.same("MAX_VALUE: 255", x.current(Check.MOST, 1), -25);
+        Check.same("MAX_VALUE: 255 + 64", x.current(Check.MOST, 0), 900);
+        Check.same("MAX_VALUE - 63: 192", x.current(Check.MOST - 63, 1), -1020);
+        Check.same("MAX_VALUE - 63: 256", x.current(Check.MOST - 63, 0), 7);
+        Check.same("MIN_VALUE: 0", x.current(Check.LEAST, 1), 7);
+        Check.same("MIN_VALUE: 64", x.current(Check.LEAST, 0), 1020);
+        Check.same("MIN_VALUE + 255", x.current(Check.LEAST + 255, 1), -25);
         Check.sentence(7, "SINE of a number n of MICROS (any): in a CYCLE's first QUARTER TABLE at its rest, in the second TABLE at 64 less that");
         for (int rest = 0; rest < 64; rest++) {
             Check.same("first", x.current(rest, 1), x.table(rest, 1));
@@ -68,7 +65,7 @@ public final class EdgesTableTest {
             Check.same("fourth", x.current(192 + rest, 1), -x.table(64 - rest, 1));
         }
         Check.sentence(7, "Integer.MIN_VALUE for another one");
-        for (int coil : new int[] {-1, 2, LEAST, MOST}) {
+        for (int coil : new int[] {-1, 2, Check.LEAST, Check.MOST}) {
             Check.same("coil " + coil, x.current(0, coil), Check.CANT);
         }
     }
@@ -101,7 +98,7 @@ public final class EdgesTableTest {
         Check.same("at 32", middle.field(2), 32);
         Check.same("greatest", middle.field(1), 1000);
         Check.sentence(8, "NONE for another what");
-        for (int what : new int[] {-1, 3, LEAST, MOST}) {
+        for (int what : new int[] {-1, 3, Check.LEAST, Check.MOST}) {
             Check.same("field " + what, plain.field(what), Check.NONE);
         }
     }
@@ -127,7 +124,7 @@ public final class EdgesTableTest {
         // 1 with 1,000: 24 needs nothing
         Check.same("just so", Check.on("fix 63 1;").mend(1), 0);
         Check.sentence(9, "Integer.MIN_VALUE for another q");
-        for (int q : new int[] {-1, 65, LEAST, MOST}) {
+        for (int q : new int[] {-1, 65, Check.LEAST, Check.MOST}) {
             Check.same("mend " + q, new MicroSteps().mend(q), Check.CANT);
         }
         MicroSteps x = Check.on("fix 64 -200;");
@@ -140,6 +137,10 @@ public final class EdgesTableTest {
         MicroSteps plain = new MicroSteps();
         Check.same("least", plain.tuned(0), 999);
         Check.same("greatest", plain.tuned(1), 1000);
+        // 0 becomes -198 ahead of 64, which then goes by -19 from 1,000, not by 0
+        Check.same("0 and 64 too", Check.on("fix 64 -200;").tuned(2), 33);
+        // with 981 at 64 it is -195 at 0 (1,000,386; 194: 999,997), and 981 stays
+        Check.same("0, not 64", Check.on("fix 64 -19;fix 0 -198;").tuned(2), 32);
         Check.sentence(10, "how many CORRECTIONS would be other ones than they are");
         Check.same("others", plain.tuned(2), 31);
         int[] mended = {0, 21, 15, 4, 1, 4, 0, 1, 3, 3, 4, 2, 3, 5, 4, 3, 2, 3, 2, 4, 4, 5, 4, 4, 3, 4, 4, 3, 4, 4, 4, 4, 2};
@@ -158,7 +159,7 @@ public final class EdgesTableTest {
         Check.same("least of one too far", Check.on("fix 64 -200;").tuned(0), 999);
         Check.same("greatest of one too far", Check.on("fix 64 200;").tuned(1), 1000);
         Check.sentence(10, "NONE for another what");
-        for (int what : new int[] {-1, 3, LEAST, MOST}) {
+        for (int what : new int[] {-1, 3, Check.LEAST, Check.MOST}) {
             Check.same("tuned " + what, plain.tuned(what), Check.NONE);
         }
         Check.doesNothing("tuned", done, () -> done.tuned(2), 0);

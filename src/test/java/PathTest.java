@@ -18,20 +18,9 @@ public final class PathTest {
         Check.finish();
     }
 
-    private static void path(MicroSteps x, int[] to, int... due) {
-        for (int what = 0; what < due.length; what++) {
-            Check.same("path to " + to[0] + " " + to[1] + " " + to[2] + " what " + what,
-                x.path(to[0], to[1], to[2], what), due[what]);
-        }
-    }
-
-    private static int[] to(int x, int y, int z) {
-        return new int[] {x, y, z};
-    }
-
     private static void alone() {
         MicroSteps x = Check.on(Check.ONE_AXIS);
-        path(x, to(100, 0, 0), 15, 0, 100, 10, 10, 6, 0);
+        Check.path("path", x, Check.to(100, 0, 0), 15, 0, 100, 10, 10, 6, 0);
         int[] places = {0, 1, 4, 9, 16, 25, 35, 45, 55, 65, 75, 84, 91, 96, 99, 100};
         for (int k = 0; k < places.length; k++) {
             Check.same("forth " + k, x.pathAt(100, 0, 0, 0, k), places[k]);
@@ -46,62 +35,62 @@ public final class PathTest {
 
     private static void short1() {
         MicroSteps x = Check.on(Check.ONE_AXIS);
-        path(x, to(1, 0, 0), 1, 0, 1, 10, 0, 0, 0);
-        path(x, to(2, 0, 0), 2, 0, 2, 10, 1, 1, 0);
-        path(x, to(3, 0, 0), 3, 0, 3, 10, 1, 1, 0);
-        path(x, to(7, 0, 0), 5, 0, 7, 10, 2, 2, 0);
+        Check.path("path", x, Check.to(1, 0, 0), 1, 0, 1, 10, 0, 0, 0);
+        Check.path("path", x, Check.to(2, 0, 0), 2, 0, 2, 10, 1, 1, 0);
+        Check.path("path", x, Check.to(3, 0, 0), 3, 0, 3, 10, 1, 1, 0);
+        Check.path("path", x, Check.to(7, 0, 0), 5, 0, 7, 10, 2, 2, 0);
     }
 
     private static void rest() {
         MicroSteps x = Check.on(Check.ONE_AXIS);
         // twice 35, and 25 in 3 TICKS: 8, 8, 9
-        path(x, to(95, 0, 0), 15, 0, 95, 10, 10, 6, 0);
+        Check.path("path", x, Check.to(95, 0, 0), 15, 0, 95, 10, 10, 6, 0);
         Check.same("behind 7", x.pathAt(95, 0, 0, 0, 7), 43);
         Check.same("behind 8", x.pathAt(95, 0, 0, 0, 8), 51);
         Check.same("behind 9", x.pathAt(95, 0, 0, 0, 9), 60);
         // no rest
-        path(x, to(70, 0, 0), 12, 0, 70, 10, 10, 6, 0);
+        Check.path("path", x, Check.to(70, 0, 0), 12, 0, 70, 10, 10, 6, 0);
         // a jerk above the gain has no RAMP: one by one
         MicroSteps slow = Check.on("axis x speed 10 gain 2 jerk 3;");
-        path(slow, to(30, 0, 0), 30, 0, 30, 10, 0, 0, 0);
+        Check.path("path", slow, Check.to(30, 0, 0), 30, 0, 30, 10, 0, 0, 0);
     }
 
     private static void bands() {
         MicroSteps x = Check.on(Check.ONE_AXIS + "band x 8 10;band x 9 9;");
         // 7 is reached: 1, 3, 5, 6, 7 are 22; the rest of 56 in 8 TICKS
-        path(x, to(100, 0, 0), 18, 0, 100, 10, 7, 5, 0);
+        Check.path("path", x, Check.to(100, 0, 0), 18, 0, 100, 10, 7, 5, 0);
         MicroSteps crossed = Check.on(Check.ONE_AXIS + "band x 5 5;band x 4 6;");
         // 1, 3, 5, 7, 9, 10: 5 is crossed twice
-        path(crossed, to(100, 0, 0), 15, 0, 100, 10, 10, 6, 2);
+        Check.path("path", crossed, Check.to(100, 0, 0), 15, 0, 100, 10, 10, 6, 2);
         MicroSteps within = Check.on("axis x speed 3 gain 1 jerk 1;band x 2 2;");
         // 1, 2, 3 twice are 12; the rest of 8 in 3 TICKS: 2, 3, 3
-        path(within, to(20, 0, 0), 9, 0, 20, 3, 3, 3, 3);
+        Check.path("path", within, Check.to(20, 0, 0), 9, 0, 20, 3, 3, 3, 3);
         // the rest of 2 in one TICK
-        path(within, to(14, 0, 0), 7, 0, 14, 3, 3, 3, 3);
+        Check.path("path", within, Check.to(14, 0, 0), 7, 0, 14, 3, 3, 3, 3);
         MicroSteps first = Check.on(Check.ONE_AXIS + "band x 1 1;");
-        path(first, to(100, 0, 0), 15, 0, 100, 10, 10, 6, 2);
+        Check.path("path", first, Check.to(100, 0, 0), 15, 0, 100, 10, 10, 6, 2);
         // 1, 3, 5, 7, 9, 10, then 8, 8, 9
-        path(Check.on(Check.ONE_AXIS + "band x 9 9;"), to(95, 0, 0), 15, 0, 95, 10, 10, 6, 3);
-        path(Check.on(Check.ONE_AXIS + "band x 8 8;"), to(95, 0, 0), 15, 0, 95, 10, 10, 6, 2);
+        Check.path("path", Check.on(Check.ONE_AXIS + "band x 9 9;"), Check.to(95, 0, 0), 15, 0, 95, 10, 10, 6, 3);
+        Check.path("path", Check.on(Check.ONE_AXIS + "band x 8 8;"), Check.to(95, 0, 0), 15, 0, 95, 10, 10, 6, 2);
         MicroSteps barred = Check.on("axis x speed 3 gain 1 jerk 1;band x 1 60;");
-        path(barred, to(20, 0, 0), 20, 0, 20, 3, 0, 0, 20);
+        Check.path("path", barred, Check.to(20, 0, 0), 20, 0, 20, 3, 0, 0, 20);
         MicroSteps others = Check.on(Check.TWO_AXES + "band y 1 60;");
-        path(others, to(100, 0, 0), 15, 0, 100, 10, 10, 6, 0);
-        path(others, to(100, 50, 0), 17, 0, 100, 8, 8, 5, 0);
+        Check.path("path", others, Check.to(100, 0, 0), 15, 0, 100, 10, 10, 6, 0);
+        Check.path("path", others, Check.to(100, 50, 0), 17, 0, 100, 8, 8, 5, 0);
     }
 
     private static void several() {
         MicroSteps x = Check.on(Check.TWO_AXES);
-        path(x, to(100, 50, 0), 17, 0, 100, 8, 8, 5, 0);
+        Check.path("path", x, Check.to(100, 50, 0), 17, 0, 100, 8, 8, 5, 0);
         // 1, 3, 4 twice are 16; the rest of 34 in 9 TICKS
-        path(x, to(50, 50, 0), 15, 0, 50, 4, 4, 3, 0);
-        path(x, to(-50, 50, 0), 15, 0, 50, 4, 4, 3, 0);
-        path(x, to(3, -50, 0), 15, 1, 50, 4, 4, 3, 0);
+        Check.path("path", x, Check.to(50, 50, 0), 15, 0, 50, 4, 4, 3, 0);
+        Check.path("path", x, Check.to(-50, 50, 0), 15, 0, 50, 4, 4, 3, 0);
+        Check.path("path", x, Check.to(3, -50, 0), 15, 1, 50, 4, 4, 3, 0);
         // gain and jerk of the LEAD: the least of 2 and 6 * 100 / 30 ..
         MicroSteps gains = Check.on("axis x speed 60 gain 20 jerk 10;axis y speed 60 gain 5 jerk 2;");
         // 5 * 100 / 33 = 15, 2 * 100 / 33 = 6: the RAMP by 15, 6: 6, 18, 24 .. twice 24 is 48, 48 + 48 = 96
         Check.same("ramp by the least of both", x.ramp(24, 15, 6, 2), 48);
-        path(gains, to(100, 33, 0), 7, 0, 100, 60, 24, 3, 0);
+        Check.path("path", gains, Check.to(100, 33, 0), 7, 0, 100, 60, 24, 3, 0);
         // behind s of 100: (2 * s * 33 + 100) / 200
         int[] lead = {0, 6, 24, 48, 52, 76, 94, 100};
         int[] other = {0, 2, 8, 16, 17, 25, 31, 33};
@@ -285,7 +274,7 @@ public final class PathTest {
         }
         Check.same("there", x.now(0, 0), -30000);
         Check.same("there", x.now(1, 0), -30000);
-        path(x, to(30000, 30000, 0), 60000, 0, 60000, 1, 1, 1, 0);
+        Check.path("path", x, Check.to(30000, 30000, 0), 60000, 0, 60000, 1, 1, 1, 0);
         Check.same("the last micro", x.stamp(30000, 30000, 0, 1, 60000), 60000000);
         for (int k = 1; k <= 60000; k += 7) {
             Check.same("one a tick " + k, x.stamp(30000, 30000, 0, 0, k), 1000 * k);
