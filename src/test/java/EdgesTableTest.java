@@ -79,6 +79,7 @@ public final class EdgesTableTest {
         // 0 and 64: 800 alone
         MicroSteps low = Check.on("fix 64 -200;");
         Check.same("800 just", low.field(0), 800);
+        Check.same("1,024 just", Check.on("fix 64 24;").field(1), 1024);
         // 1,200 and 200: 1,480,000 is 1,216.55 squared
         MicroSteps high = Check.on("fix 0 200;fix 64 200;");
         Check.same("1216", high.field(1), 1216);
