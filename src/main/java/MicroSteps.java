@@ -1165,16 +1165,11 @@ public final class MicroSteps {
         }
 
         boolean isName() {
-            return kind == WORD && !isLineWord() && !isPartWord();
-        }
-
-        boolean isLineWord() {
-            return isWord("axis") || isWord("motor") || isWord("band") || isWord("fix") || isWord("coil");
-        }
-
-        boolean isPartWord() {
-            return isWord("speed") || isWord("gain") || isWord("jerk") || isWord("hold") || isWord("mass")
-                || isWord("damp") || isWord("supply") || isWord("loss");
+            return kind == WORD
+                && !isWord("axis") && !isWord("motor") && !isWord("band") && !isWord("fix") && !isWord("coil")
+                && !isWord("speed") && !isWord("gain") && !isWord("jerk")
+                && !isWord("hold") && !isWord("mass") && !isWord("damp")
+                && !isWord("supply") && !isWord("loss");
         }
 
         /** Six letters to the base 27 fit an int, so words are compared as numbers. */

@@ -1,19 +1,22 @@
+import java.io.IOException;
 import java.lang.reflect.Constructor;
 import java.lang.reflect.Field;
 import java.lang.reflect.Method;
 import java.lang.reflect.Modifier;
+import java.nio.charset.StandardCharsets;
+import java.nio.file.Files;
+import java.nio.file.Path;
 import java.util.ArrayList;
 import java.util.Collections;
 import java.util.List;
+import java.util.regex.Matcher;
+import java.util.regex.Pattern;
 
 /** The public face is the document's, no more and no less. */
 public final class FaceTest {
-    private static final String FACE = "about/1 axis/2 bands/2 bench/0 calmIn/0 carries/2 coil/3 current/2 drives/6 "
-        + "end/1 fault/1 feed/5 field/1 follows/3 go/3 halt/0 load/2 mend/1 mode/1 most/4 needed/3 now/2 path/4 "
-        + "pathAt/5 peak/4 queue/3 quickest/3 ramp/4 rampAt/4 ripple/2 run/1 settles/2 shake/3 stallIn/1 stamp/5 "
-        + "strain/2 swings/3 table/2 trueUp/0 tuned/1 undo/0 unsafe/2 watch/2 worst/2";
+    private static final Pattern TOLD = Pattern.compile("(?m)^    public int (\\w+)\\(([^)]*)\\);$");
 
-    public static void main(String[] args) {
+    public static void main(String[] args) throws IOException {
         Class<?> face = MicroSteps.class;
         Check.holds("public final class", Modifier.isPublic(face.getModifiers()) && Modifier.isFinal(face.getModifiers()));
         List<String> methods = new ArrayList<>();
@@ -28,8 +31,9 @@ public final class FaceTest {
             }
         }
         Collections.sort(methods);
-        String told = String.join(" ", methods);
-        Check.holds("the face: " + told, told.equals(FACE));
+        List<String> told = toldMethods(Path.of(System.getProperty("project", "."), "..", "shared", "DOC.md"));
+        Check.same("methods of the document", told.size(), 44);
+        Check.holds("the face: " + methods + ", due is " + told, methods.equals(told));
         for (Field field : face.getDeclaredFields()) {
             Check.holds(field.getName() + " is hidden",
                 Modifier.isPrivate(field.getModifiers()) || field.getName().equals("NONE"));
@@ -40,5 +44,17 @@ public final class FaceTest {
             Modifier.isPublic(makers[0].getModifiers()) && makers[0].getParameterCount() == 0);
         Check.same("NONE", MicroSteps.NONE, -1);
         Check.finish();
+    }
+
+    /** Each method of the document's face, by its name and by how many numbers it takes. */
+    private static List<String> toldMethods(Path document) throws IOException {
+        List<String> told = new ArrayList<>();
+        Matcher matcher = TOLD.matcher(Files.readString(document, StandardCharsets.UTF_8));
+        while (matcher.find()) {
+            String numbers = matcher.group(2);
+            told.add(matcher.group(1) + "/" + (numbers.isEmpty() ? 0 : numbers.split(",").length));
+        }
+        Collections.sort(told);
+        return told;
     }
 }
